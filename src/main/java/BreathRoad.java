@@ -23,6 +23,7 @@ public final class BreathRoad {
     private static final int MOST_RESULT = 1000000;
     private static final int SECONDS = MOST_SECONDS + 1;
     private static final int SCORE_SHIFT = 100000;
+    private static final long SEED_BITS = 0x7fffffffL;
 
     private static final int REFUSED_TAPE = 0;
     private static final int REFUSED_ROAD = 1;
@@ -47,7 +48,6 @@ public final class BreathRoad {
     private static final int FACTS = 7;
 
     private final Tape tape = new Tape();
-    private final Reader reader = new Reader();
     private final State now = new State();
     private final History history = new History();
     private final Judge judge = new Judge(now, new Road());
@@ -56,6 +56,7 @@ public final class BreathRoad {
     private final Image picture = new Image();
     private final int[] refused = new int[5];
     private Road spare = new Road();
+    private final Reader reader = new Reader(tape, spare);
     private int x = 1;
 
     public BreathRoad() {
@@ -83,7 +84,7 @@ public final class BreathRoad {
     }
 
     public int road() {
-        reader.begin(tape, spare);
+        reader.begin(spare);
         for (int i = 0; i <= MOST_STATEMENTS && reader.isGoingOn(); i++) {
             reader.readStatement();
         }
@@ -475,7 +476,7 @@ public final class BreathRoad {
     }
 
     private int draw(int m) {
-        x = (int) ((1103515245L * x + 12345L) & Integer.MAX_VALUE);
+        x = (int) ((1103515245L * x + 12345L) & SEED_BITS);
         return m > 0 ? x / 64 % m : 0;
     }
 
@@ -750,8 +751,8 @@ public final class BreathRoad {
         private static final int BROKEN = 4;
 
         private final int[] ownWords = new int[OWN_COUNT];
-        private Tape text = null;
-        private Road road = null;
+        private final Tape text;
+        private Road road;
         private int at = 0;
         private int from = 0;
         private int token = START;
@@ -761,7 +762,9 @@ public final class BreathRoad {
         int fault = 0;
         int place = NONE;
 
-        Reader() {
+        Reader(Tape tape, Road into) {
+            text = tape;
+            road = into;
             int count = 0;
             int letters = 0;
             int packed = 0;
@@ -788,8 +791,7 @@ public final class BreathRoad {
             return packed >> 5 * (MOST_LETTERS - 1 - k) & 31;
         }
 
-        void begin(Tape tape, Road into) {
-            text = tape;
+        void begin(Road into) {
             road = into;
             road.clear();
             at = 0;
@@ -1278,6 +1280,10 @@ public final class BreathRoad {
         void keep(int tunnel, int length, int holder, int held) {
             row[KEPT + row[KEPT_EVER] % MOST_KEPT] = tunnel << 24 | length << 16 | holder << 8 | held;
             row[KEPT_EVER]++;
+            // Counts on from one full ring again, so that it never grows too great.
+            if (row[KEPT_EVER] == 2 * MOST_KEPT) {
+                row[KEPT_EVER] = MOST_KEPT;
+            }
         }
 
         void keepNothing() {
@@ -1400,7 +1406,8 @@ public final class BreathRoad {
 
     /** What is best; means are totals over all weights, so that no division blurs which is more. */
     private static final class Chooser {
-        private static final long UNKNOWN = Long.MIN_VALUE;
+        // Far below any total: 999 in each of four tunnels, times all weights of all four.
+        private static final long UNKNOWN = -1000000000000000L;
 
         private final Judge judge;
         private final long[] totals = new long[MOST_ON * SECONDS];
