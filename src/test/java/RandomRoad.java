@@ -14,6 +14,7 @@ final class RandomRoad {
     private final List<String> names = new ArrayList<>();
     private int tunnels = 0;
     private int holders = 0;
+    private boolean careless = false;
 
     RandomRoad(Random random) {
         this.random = random;
@@ -120,6 +121,10 @@ final class RandomRoad {
     }
 
     private String part(int open, int deep) {
+        if (careless && random.nextInt(12) == 0) {
+            int more = Math.max(0, 5 - open) + upTo(4);
+            return "(".repeat(more) + "held" + ")".repeat(more);
+        }
         int kind = open >= 6 || deep > 4 ? upTo(5) : upTo(9);
         switch (kind) {
             case 0, 1: return String.valueOf(upTo(random.nextInt(6) == 0 ? 9999 : 30));
@@ -141,6 +146,10 @@ final class RandomRoad {
     }
 
     private String fact(int open, int deep) {
+        if (careless && random.nextInt(6) == 0) {
+            int more = Math.max(0, 5 - open) + upTo(4);
+            return random.nextBoolean() ? "not ".repeat(more) + "all" : "[".repeat(more) + "all" + "]".repeat(more);
+        }
         int kind = upTo(9);
         if (kind == 0 && open < 6) {
             return "not " + fact(open + 1, deep + 1);
@@ -152,8 +161,9 @@ final class RandomRoad {
     }
 
     String brokenText() {
+        careless = upTo(2) == 0;
         StringBuilder told = new StringBuilder(text());
-        for (int i = 1 + upTo(1); i > 0; i--) {
+        for (int i = careless ? upTo(1) : 1 + upTo(1); i > 0; i--) {
             if (upTo(2) > 0) {
                 changeToken(told);
             } else {
