@@ -10,6 +10,7 @@ public final class ModelTest {
     private final Model model = new Model();
     private final int run;
     private int calls = 0;
+    private int[] older = {};
 
     private ModelTest(Check check, int run) {
         this.check = check;
@@ -119,9 +120,14 @@ public final class ModelTest {
             bytes[k] = model.octet(k);
         }
         due("octet behind", x.octet(size), model.octet(size));
+        int[] latest = bytes.clone();
+        if (older.length == size && random.nextBoolean()) {
+            bytes = older;
+        }
+        older = latest;
         if (random.nextInt(3) > 0) {
             for (int i = random.nextInt(3); i > 0; i--) {
-                bytes[random.nextInt(size - 1)] = some(64);
+                bytes[random.nextInt(4) == 0 ? 0 : random.nextInt(size - 1)] = some(random.nextBoolean() ? 6 : 64);
             }
             int c = 107;
             for (int k = 0; k < size - 1; k++) {

@@ -49,6 +49,8 @@ public final class PromisesTest {
         kept();
         imageAndOctet();
         goOn();
+        fullSize();
+        askedAgain();
         status();
         CHECK.finish();
     }
@@ -339,6 +341,18 @@ public final class PromisesTest {
         sum("if(2<1,3,4)", 4);
         sum("if(1=1,3,4)+if(2>1,10,20)+if(1>1,100,200)", 213);
         sum("if(not 1<2,3,4)", 4);
+        for (String holds : new String[] {"1=1", "1<2", "2>1", "all", "[all]", "not 1=2"}) {
+            sum("if(" + holds + " and all,3,4)", 3);
+            sum("if(all and " + holds + ",3,4)", 3);
+            sum("if(not " + holds + ",3,4)", 4);
+            sum("if(not all or " + holds + ",3,4)", 3);
+        }
+        for (String fails : new String[] {"1=2", "2=1", "1<1", "2<1", "1>1", "1>2", "not all", "[not all]"}) {
+            sum("if(" + fails + " and all,3,4)", 4);
+            sum("if(" + fails + ",3,4)", 4);
+            sum("if(not " + fails + ",3,4)", 3);
+            sum("if(" + fails + " or " + fails + ",3,4)", 4);
+        }
         sum("if(not all or all,3,4)", 3);
         sum("if(not [all or all],3,4)", 4);
         sum("if(all or all and not all,3,4)", 3);
@@ -848,6 +862,7 @@ public final class PromisesTest {
         refusedImage(x, "61 seconds of breath", closed(0, 61, 60, 1, 134, 160, 0, 0));
         refusedImage(x, "61 seconds to give up", closed(0, 5, 61, 1, 134, 160, 0, 0));
         refusedImage(x, "61 seconds believed", closed(0, 5, 60, 1, 134, 160, 0, 61));
+        refusedImage(x, "61 seconds believed of the first", closed(0, 5, 60, 1, 134, 160, 61, 0));
         refusedImage(x, "a score of -100000", closed(0, 5, 60, 0, 0, 0, 0, 0));
         refusedImage(x, "a score of 100000", closed(0, 5, 60, 3, 13, 64, 0, 0));
         refusedImage(x, "a great score", closed(0, 5, 60, 255, 255, 255, 0, 0));
@@ -876,11 +891,88 @@ public final class PromisesTest {
         due("put", Check.put(x, closed(0, 0, 60, 3, 13, 63, 0, 60)), true);
         due("goOn", x.goOn(), true);
         due("score", x.score(0), 99999);
+        due("next", x.has(4), 0);
         x = new BreathRoad();
         due("put", Check.put(x, closed(0)), true);
         due("goOn without a road", x.goOn(), true);
         due("put", Check.put(x, closed(1)), true);
         due("goOn without a road, tunnel 1", x.goOn(), false);
+    }
+
+    /** Six of each, four lengths each, and each number at the last place of its row. */
+    private static void fullSize() {
+        StringBuilder text = new StringBuilder();
+        for (int t = 0; t < 6; t++) {
+            text.append("tunnel t").append((char) ('a' + t)).append(" gap ").append(90 + t);
+            for (int k = 0; k < 4; k++) {
+                text.append(" at ").append(10 * k + t + 1).append(" weighs ").append(9 - k);
+            }
+            text.append(";");
+        }
+        for (int h = 0; h < 6; h++) {
+            text.append("holder h").append((char) ('a' + h)).append(" breath ").append(20 + h).append(" laughs 0;");
+        }
+        BreathRoad x = Check.of(text + "worth held+beaten;tires breath;");
+        due("tunnels", x.has(0), 6);
+        due("holders", x.has(1), 6);
+        due("the last length", x.tunnel(5, 13), 36);
+        due("the last weight", x.tunnel(5, 23), 6);
+        due("all weights", x.tunnel(5, 2), 30);
+        for (int h = 0; h < 6; h++) {
+            for (int t = 0; t < 6; t++) {
+                due("believe", x.believe(h, t, 6 * h + t), 0);
+            }
+            due("give", x.give(h, 50 + h), 60);
+        }
+        due("rest", x.rest(5, NONE), 1);
+        due("alone", x.alone(5, 5, 0), 25);
+        due("pace of all", x.pace(5, 63, 0) >= 1, true);
+        due("whom", x.whom(5, 5, 0) >= NONE, true);
+        due("image", x.image(), 2 + 6 * 11);
+        int[] bytes = new int[68];
+        for (int k = 0; k < 68; k++) {
+            bytes[k] = x.octet(k);
+        }
+        bytes[0] = 5;
+        due("all again", Check.road(x, text.toString()), 12);
+        due("put", Check.put(x, closed(java.util.Arrays.copyOf(bytes, 67))), true);
+        due("goOn", x.goOn(), true);
+        due("next", x.has(4), 5);
+        for (int h = 0; h < 6; h++) {
+            due("breath", x.holder(h, 0), 20 + h);
+            due("gives", x.holder(h, 3), 50 + h);
+            due("score", x.score(h), 0);
+            for (int t = 0; t < 6; t++) {
+                due("believes", x.holder(h, 10 + t), 6 * h + t);
+            }
+        }
+        due("drive", x.drive(30) >= 0, true);
+        due("next", x.has(4), 5);
+    }
+
+    /** What is asked again behind a change is not the answer from ahead of it. */
+    private static void askedAgain() {
+        String start = "tunnel t gap 0 at 9 weighs 1;holder a breath 9 laughs 0;holder b breath 4 laughs 0;worth held;";
+        BreathRoad x = Check.of(start + "tires 4-held/9*4;");
+        due("rest", x.rest(0, 0), 9);
+        due("alone", x.alone(0, 0, 0), 9);
+        x.drive(1);
+        due("a has no breath left: rest", x.rest(0, 0), 0);
+        due("b: alone", x.alone(1, 0, 0), 4);
+        due("a: alone", x.alone(0, 0, 0), 0);
+        due("a: on", x.on(0, 1, 1), 0);
+        due("b: on", x.on(1, 1, 1), 4000);
+        x.pause();
+        due("pause: rest", x.rest(0, 0), 9);
+        x.undo();
+        due("undo: rest", x.rest(0, 0), 0);
+        due("put", Check.put(x, closed(0, 7, 60, 1, 134, 160, 0, 4, 60, 1, 134, 160, 0)), true);
+        due("goOn", x.goOn(), true);
+        due("goOn: rest", x.rest(0, 0), 7);
+        due("goOn: alone", x.alone(0, 0, 0), 7);
+        due("road", Check.road(x, start.replace("worth held", "worth 0-held")), 4);
+        due("road: rest", x.rest(0, 0), 0);
+        due("road: alone", x.alone(0, 0, 0), 0);
     }
 
     private static void status() {

@@ -54,8 +54,9 @@ final class RandomRoad {
         List<String> t = new ArrayList<>();
         List<String> h = new ArrayList<>();
         List<String> all = new ArrayList<>();
-        int mostTunnels = random.nextInt(10) == 0 ? upTo(6) : 1 + upTo(3);
-        int mostHolders = random.nextInt(10) == 0 ? upTo(6) : 1 + upTo(4);
+        boolean full = random.nextInt(8) == 0;
+        int mostTunnels = full ? 6 : random.nextInt(10) == 0 ? upTo(6) : 1 + upTo(3);
+        int mostHolders = full ? 6 : random.nextInt(10) == 0 ? upTo(6) : 1 + upTo(4);
         boolean worth = random.nextInt(12) > 0;
         boolean tires = random.nextInt(6) > 0;
         while (tunnels < mostTunnels || holders < mostHolders) {
