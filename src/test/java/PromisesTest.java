@@ -56,6 +56,8 @@ public final class PromisesTest {
     }
 
     private static void newObject() {
+        due("NONE", NONE, -1);
+        due("NOTHING", NOTHING, -1000000000);
         BreathRoad x = new BreathRoad();
         for (int what = 0; what < 7; what++) {
             due("new: has " + what, x.has(what), 0);
