@@ -85,7 +85,7 @@ public final class BreathRoad {
 
     public int road() {
         reader.begin(spare);
-        for (int i = 0; i <= MOST_STATEMENTS && reader.isGoingOn(); i++) {
+        for (int i = 0; i <= MOST_STATEMENTS && reader.comesToStatement(); i++) {
             reader.readStatement();
         }
         tape.size = 0;
@@ -795,14 +795,8 @@ public final class BreathRoad {
             road = into;
             road.clear();
             at = 0;
-            token = START;
             fault = 0;
             place = NONE;
-            advance();
-        }
-
-        boolean isGoingOn() {
-            return token != END && token != BROKEN;
         }
 
         private void fail(int kind, int where) {
@@ -820,10 +814,12 @@ public final class BreathRoad {
             if (token == BROKEN) {
                 return;
             }
-            boolean needsBlank = token == WORD || token == NUMBER;
-            int behind = at;
+            // Ahead of reading what stands there: its own 7th letter or 5th digit would be further along.
+            if (isSideBySide()) {
+                fail(NO_ROAD, at);
+                return;
+            }
             skipBlanks();
-            needsBlank = needsBlank && at == behind;
             from = at;
             ownWord = NONE;
             if (at >= text.size) {
@@ -835,9 +831,12 @@ public final class BreathRoad {
             } else {
                 scanSign();
             }
-            if (needsBlank && (token == WORD || token == NUMBER)) {
-                fail(NO_ROAD, from);
-            }
+        }
+
+        /** A word or a number right behind the one that was read last. */
+        private boolean isSideBySide() {
+            int next = text.byteAt(at);
+            return (token == WORD || token == NUMBER) && (isLetter(next) || isDigit(next));
         }
 
         private void skipBlanks() {
@@ -956,11 +955,19 @@ public final class BreathRoad {
 
         // ---- statements
 
+        /** Stops at a statement's first byte and reads nothing of it: one too many is that whatever it is. */
+        boolean comesToStatement() {
+            skipBlanks();
+            return fault == 0 && at < text.size;
+        }
+
         void readStatement() {
             if (road.statements >= MOST_STATEMENTS) {
-                fail(TOO_MANY, from);
+                fail(TOO_MANY, at);
                 return;
             }
+            token = START;
+            advance();
             switch (ownWord) {
                 case TUNNEL: readTunnel(); break;
                 case HOLDER: readHolder(); break;
@@ -972,7 +979,9 @@ public final class BreathRoad {
                 case FINE: advance(); road.fine = takeNumber(0, 999); break;
                 default: fail(NO_ROAD, from); break;
             }
-            takeSign(';');
+            if (token != ';') {
+                fail(NO_ROAD, from);
+            }
             road.statements++;
         }
 
