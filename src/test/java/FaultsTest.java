@@ -28,10 +28,12 @@ public final class FaultsTest {
     public static void main(String[] args) {
         texts();
         wordsAndNumbers();
+        sideBySide();
         names();
         numbers();
         open();
         tooMany();
+        theEightyFirst();
         order();
         CHECK.finish();
     }
@@ -110,6 +112,58 @@ public final class FaultsTest {
         fine("worth 9999;");
         fine("seen 0005;");
         fine("worth(1)*(held)/2;");
+    }
+
+    private static void sideBySide() {
+        for (String word : new String[] {"a", "held", "abcdef", "abcdefg", "abcdefghij"}) {
+            fault(1, "seen 1|" + word + ";");
+            fault(1, "worth 1234|" + word + ";");
+            fault(1, "worth (held+5|" + word + ");");
+            fault(1, "tunnel t gap 1|" + word + " 5 weighs 1;");
+        }
+        for (String number : new String[] {"5", "1234", "12345", "123456789"}) {
+            fault(1, "seen|" + number + ";");
+            fault(1, "tunnel t|" + number + " gap 1 at 5 weighs 1;");
+            fault(1, "holder abcdef|" + number + " breath 5 laughs 0;");
+            fault(1, "worth held|" + number + ";");
+            fault(1, H + "gives h|" + number + ";");
+        }
+        // Two words, or two numbers, without a blank are one.
+        fault(1, "|seenfi 5;");
+        fault(1, "seenfi|ne 5;");
+        fault(1, "worth |heldas;");
+        fault(1, "worth heldhe|ld;");
+        fault(1, "holder abcdef|breath 5 laughs 0;");
+        fine("worth 1212;");
+        fault(1, "worth 1212|12;");
+        fault(4, "seen |1212;");
+        // With a blank, or a sign, each is one of its own.
+        for (String blank : new String[] {" ", "\n", " \n "}) {
+            fine("seen" + blank + "5;");
+            fault(1, "seen" + blank + "1234|5;");
+            fault(1, "seen 5" + blank + "|fine 5;");
+            fault(1, "seen 5" + blank + "abcdef|g;");
+            fault(1, "seen 5" + blank + "|6;");
+            fault(1, "seen 5" + blank + "1234|5;");
+            fault(1, "seen" + blank + "|fine;");
+            fault(1, "seen" + blank + "abcdef|g;");
+        }
+        fine("worth 1+held*2-long/3;");
+        fault(1, "worth 1+abcdef|g;");
+        fault(1, "worth held+1234|5;");
+        fault(1, "seen 5;abcdef|g;");
+        fault(1, "seen 5;1234|5;");
+        // What is wrong further ahead counts, be it with what stands beside it or not.
+        fault(1, "seen 1234|5abcdefg;");
+        fault(1, "abcdef|g12345;");
+        fault(1, "seen 1|a2b3c;");
+        fault(1, "tunnel |5abcdefg gap 1 at 5 weighs 1;");
+        fault(4, "seen |101abcdefg;");
+        fault(4, "tunnel t gap 1 at |61weighs 1;");
+        fault(3, "gives |x12345;");
+        fault(2, H + "holder |h12345;");
+        fault(6, "worth 1;|worth12345;");
+        fault(5, "worth if(" + times(6, "not ") + "|not12345,1,2);");
     }
 
     private static void names() {
@@ -205,6 +259,30 @@ public final class FaultsTest {
         String four = "tunnel t gap 1 at 1 weighs 1 at 2 weighs 1 at 3 weighs 1 at 4 weighs 1";
         fine(four + ";");
         fault(6, four + " |at 1 weighs 1;");
+    }
+
+    private static void theEightyFirst() {
+        String eighty = times(80, "seen 0;");
+        for (String any : new String[] {"seen 0;", "s", "x", "held;", ";", "5", "1234;", "12345", "123456789;", "abcdef",
+                "abcdefg ", "abcdefg\u0000\u0000", "abcdefghi5;", "!", "\t", "\r", "\u0000", "\u00ff", "A", "(", "]", "_",
+                "tunnel", "worth 1;", "seen 101;", "seen12345;"}) {
+            fault(6, eighty + "|" + any);
+            fault(6, eighty + " \n|" + any);
+            fault(6, eighty + "|" + any + " seen 0;!");
+        }
+        fine(eighty);
+        fine(eighty + " \n \n");
+        // One less: the same are what they are.
+        String fewer = times(79, "seen 0;");
+        fine(fewer + "seen 1;");
+        fault(1, fewer + "|!");
+        fault(1, fewer + "abcdef|g ");
+        fault(1, fewer + "1234|5");
+        fault(1, fewer + "seen|12345;");
+        fault(1, fewer + "seen 0|");
+        fault(1, fewer + "seen 0|!");
+        fault(1, fewer + "seen 0 |seen 0;");
+        fault(4, fewer + "seen |101;!");
     }
 
     private static void order() {

@@ -14,7 +14,8 @@ final class ModelText {
         + " seen fine held long made last beaten if or and not all min max").split(" "));
     private static final List<String> FACTS = Arrays.asList("held", "long", "made", "last", "beaten", "breath", "gap");
 
-    record Token(String text, int place, boolean broken) {
+    /** Where it breaks, -1 for a whole one, is not always where it begins. */
+    record Token(String text, int place, int broken) {
         boolean isName() {
             return !text.isEmpty() && Character.isLetter(text.charAt(0)) && !OWN.contains(text);
         }
@@ -66,8 +67,12 @@ final class ModelText {
         stack.push("TEXT");
         while (fault == 0 && !stack.isEmpty()) {
             Token token = tokens.get(next);
-            if (token.broken()) {
-                fail(1, token);
+            boolean mayEnd = stack.peek().equals("TEXT");
+            if (mayEnd && statements == 80 && token.place() < text.length()) {
+                fail(6, token);
+            } else if (token.broken() >= 0) {
+                fault = 1;
+                place = token.broken();
             } else {
                 step(stack.pop(), token);
             }
@@ -99,24 +104,21 @@ final class ModelText {
                     at++;
                 }
                 int most = word ? 6 : 4;
-                if (at - from > most) {
-                    tokens.add(new Token("", from + most, true));
-                    return;
-                }
-                tokens.add(new Token(text.substring(from, at), from, touching));
-                if (touching) {
+                int broken = touching ? from : at - from > most ? from + most : -1;
+                tokens.add(new Token(text.substring(from, at), from, broken));
+                if (broken >= 0) {
                     return;
                 }
             } else {
                 at++;
                 boolean sign = ";()[],+-*/%<>=".indexOf(c) >= 0;
-                tokens.add(new Token(String.valueOf(c), from, !sign));
+                tokens.add(new Token(String.valueOf(c), from, sign ? -1 : from));
                 if (!sign) {
                     return;
                 }
             }
         }
-        tokens.add(new Token("", text.length(), false));
+        tokens.add(new Token("", text.length(), -1));
     }
 
     private void fail(int kind, Token token) {
@@ -172,11 +174,7 @@ final class ModelText {
         String t = token.text();
         if (symbol.equals("TEXT")) {
             if (!t.isEmpty()) {
-                if (statements == 80) {
-                    fail(6, token);
-                } else {
-                    expect("STATEMENT", "';", "TEXT");
-                }
+                expect("STATEMENT", "';", "TEXT");
             }
         } else if (symbol.equals("LENGTHS")) {
             if (t.equals("at")) {

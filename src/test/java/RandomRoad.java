@@ -161,9 +161,27 @@ final class RandomRoad {
         return kind == 2 ? "all" : sum(open, deep + 1) + "<>=".charAt(upTo(2)) + sum(open, deep + 1);
     }
 
+    /** Some 80 statements, a few more or less, and then anything. */
+    String crowdedText() {
+        StringBuilder told = new StringBuilder();
+        for (int i = 77 + upTo(4); i > 0; i--) {
+            told.append(upTo(1) == 0 ? "seen " : "fine ").append(upTo(100)).append(upTo(9) == 0 ? " ;\n" : ";");
+        }
+        for (int i = upTo(3); i > 0; i--) {
+            told.append(BITS[upTo(BITS.length - 1)]);
+        }
+        if (upTo(3) == 0) {
+            glue(told);
+        }
+        return told.toString();
+    }
+
     String brokenText() {
         careless = upTo(2) == 0;
         StringBuilder told = new StringBuilder(text());
+        if (upTo(5) == 0) {
+            glue(told);
+        }
         for (int i = careless ? upTo(1) : 1 + upTo(1); i > 0; i--) {
             if (upTo(2) > 0) {
                 changeToken(told);
@@ -190,6 +208,24 @@ final class RandomRoad {
                 break;
             }
             default: told.insert(at, BITS[upTo(BITS.length - 1)]); break;
+        }
+    }
+
+    /** A word or a number gets another one at its end without a blank, which may be too long itself. */
+    private void glue(StringBuilder told) {
+        List<Integer> ends = new ArrayList<>();
+        Matcher matcher = Pattern.compile("[0-9]+|[a-z]+").matcher(told);
+        while (matcher.find()) {
+            ends.add(matcher.end());
+        }
+        if (!ends.isEmpty()) {
+            int at = ends.get(upTo(ends.size() - 1));
+            boolean blank = at < told.length() && told.charAt(at) == ' ';
+            if (blank && upTo(1) == 0) {
+                told.deleteCharAt(at);
+            } else {
+                told.insert(at, upTo(1) == 0 ? "12345678".substring(0, 1 + upTo(6)) : "abcdefghi".substring(0, 1 + upTo(8)));
+            }
         }
     }
 

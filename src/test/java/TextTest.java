@@ -12,7 +12,7 @@ public final class TextTest {
             if (i % 4 == 0) {
                 x = new BreathRoad();
             }
-            String text = random.nextInt(10) == 0 ? new RandomRoad(random).text() : new RandomRoad(random).brokenText();
+            String text = anyText(new RandomRoad(random), random.nextInt(10));
             ModelText model = new ModelText(text);
             check.due("put", Check.put(x, text), true);
             check.due("road of " + text, x.road(), model.fault == 0 ? model.statements : BreathRoad.NONE);
@@ -24,5 +24,13 @@ public final class TextTest {
             check.due("fault " + kind + " came up", faults[kind] > 0, true);
         }
         check.finish();
+    }
+
+    private static String anyText(RandomRoad road, int kind) {
+        switch (kind) {
+            case 0: return road.text();
+            case 1: return road.crowdedText();
+            default: return road.brokenText();
+        }
     }
 }
