@@ -164,6 +164,9 @@ public final class FaultsTest {
         fault(2, H + "holder |h12345;");
         fault(6, "worth 1;|worth12345;");
         fault(5, "worth if(" + times(6, "not ") + "|not12345,1,2);");
+        // Both at one byte: without its blank it is no number and no word there.
+        fault(1, "seen|101;");
+        fault(1, "tunnel t gap 1 at 1 weighs 1 at 2 weighs 1 at 3 weighs 1 at 4 weighs 1|at 5 weighs 1;");
     }
 
     private static void names() {
