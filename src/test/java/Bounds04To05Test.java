@@ -165,6 +165,52 @@ public final class Bounds04To05Test {
         due(x.fault(0), 3);
     }
 
+    /** Rows of the old ROAD that the new one does not need count for nothing. */
+    static void promise04FewerLengthsThanBefore() {
+        Called x = new Called();
+        for (int i = 0; i < 3; i++) {
+            due(x.read("tunnel t gap 1 at 60 weighs 9 at 59 weighs 9 at 58 weighs 9 at 57 weighs 9;"
+                + "holder h breath 60 laughs 0;worth held;"), 3);
+        }
+        for (int i = 0; i < 2; i++) {
+            due(x.read(T + "holder h breath 60 laughs 0;worth if(long>5,0-9,held);"), 3);
+            due(x.tunnel(0, 1), 1);
+            due(x.tunnel(0, 2), 1);
+            due(x.tunnel(0, 11), NONE);
+            due(x.likely(0, 5), 0);
+            due(x.made(0, 0), 1000);
+            due(x.alone(0, 0, 1), 5000);
+            due(x.on(0, 4, 1), 20000);
+            due(x.rest(0, NONE), 1);
+            due(x.hidden(0, 0, 1), 5000);
+            due(x.pace(0, 1, 1), 1000);
+            due(x.whom(0, 0, 1), 5000);
+            due(x.drive(30), 150);
+        }
+    }
+
+    static void promise04LongTextsAgainAndAgain() {
+        Called x = new Called();
+        for (int i = 0; i < 4; i++) {
+            due(x.read(T + H + "worth 0" + "+1".repeat(760) + ";"), 3);
+            due(x.worth(0, 0, 5), 760);
+            due(x.read("worth 0" + "+1".repeat(100)), NONE);
+        }
+    }
+
+    static void promise04AskedAgainBehindAnotherRoad() {
+        Called x = Called.of(T + H + "worth held;");
+        due(x.alone(0, 0, 0), 5);
+        due(x.rest(0, 0), 5);
+        due(x.read(T + H + "worth 0-held;"), 3);
+        due(x.rest(0, 0), 0);
+        due(x.alone(0, 0, 0), 0);
+        due(x.on(0, 2, 1), 0);
+        due(x.read(T + H + "worth 2;"), 3);
+        due(x.on(0, 2, 1), 4000);
+        due(x.rest(0, 0), 5);
+    }
+
     static void promise04RefusedIsCounted() {
         Called x = new Called();
         for (int i = 1; i <= 5; i++) {
@@ -268,6 +314,24 @@ public final class Bounds04To05Test {
         due(x.holder(0, 11), 3);
         due(x.holder(1, 10), 4);
         due(x.holder(1, 11), 0);
+    }
+
+    static void promise04ThinksAndGivesOfEachAndAll() {
+        StringBuilder text = new StringBuilder(tunnels(6) + holders(6));
+        for (int h = 0; h < 6; h++) {
+            text.append("gives h").append((char) ('a' + h)).append(' ').append(50 + h).append(';');
+            for (int t = 0; t < 6; t++) {
+                text.append("thinks h").append((char) ('a' + h)).append(" t").append((char) ('a' + t)).append(' ');
+                text.append(6 * h + t + 1).append(';');
+            }
+        }
+        Called x = reads(text.toString());
+        for (int h = 0; h < 6; h++) {
+            due(x.holder(h, 3), 50 + h);
+            for (int t = 0; t < 6; t++) {
+                due(x.holder(h, 10 + t), 6 * h + t + 1);
+            }
+        }
     }
 
     static void promise04Gives() {
@@ -429,6 +493,89 @@ public final class Bounds04To05Test {
         }
     }
 
+    private static final String[] STATEMENTS_APART = {
+        "tunnel t gap 5 at 7 weighs 2 at 8 weighs 1 ;", "holder h breath 7 laughs 2 ;", "seen 7 ;", "fine 7 ;",
+    };
+
+    private static String joined(String[] words, int from, int to) {
+        StringBuilder text = new StringBuilder();
+        for (int i = from; i < to; i++) {
+            text.append(words[i]).append(' ');
+        }
+        return text.toString();
+    }
+
+    static void promise05OneWordLeftOut() {
+        for (String text : STATEMENTS_APART) {
+            String[] words = text.split(" ");
+            for (int i = 0; i < words.length; i++) {
+                faults(1, joined(words, 0, i) + "|" + joined(words, i + 1, words.length) + (i + 1 < words.length ? "" : text));
+            }
+        }
+        faults(1, H + "gives |7;");
+        faults(1, H + "gives h|;");
+        faults(1, T + H + "thinks h |7;");
+        faults(1, T + H + "thinks h t|;");
+        faults(3, T + H + "thinks |t 7;");
+    }
+
+    static void promise05OneWordTwice() {
+        for (String text : STATEMENTS_APART) {
+            String[] words = text.split(" ");
+            for (int i = 0; i < words.length; i++) {
+                faults(1, joined(words, 0, i + 1) + "|" + joined(words, i, words.length));
+            }
+        }
+        faults(1, H + "gives h |h 7;");
+        faults(1, H + "gives h 7 |7;");
+        faults(3, T + H + "thinks h |h t 7;");
+        faults(1, T + H + "thinks h t |t 7;");
+        faults(1, T + H + "thinks h t 7 |7;");
+    }
+
+    static void promise05SumsThatDoNotGoOn() {
+        for (String part : new String[] {"", "1+", "1-", "2*", "2/", "2%", "(", "((", "min(", "max(1,", "1+(2-", "if(all,",
+                "if(all,1,", "if(1<", "if(1>2+", "if(", "if(not ", "if([", "if(all and ", "if(all or "}) {
+            for (String sign : new String[] {";", ")", "]", ",", "+", "-", "*", "/", "%", "<", ">", "="}) {
+                faults(1, "worth " + part + "|" + sign + ";");
+            }
+            if (!part.matches("if\\((not |\\[|all and |all or )?")) {
+                faults(1, "worth " + part + "|[all];");
+                faults(1, "worth " + part + "|not all;");
+                faults(1, "worth " + part + "|all;");
+            }
+        }
+        for (String part : new String[] {"1", "held", "1+held", "(1)", "min(1,2)", "if(all,1,2)"}) {
+            for (String sign : new String[] {")", "]", ",", "<", ">", "=", "(", "[", " 1", " held", " if(", " min(", " all",
+                    " or", " and", " not"}) {
+                boolean blank = sign.startsWith(" ");
+                faults(1, "worth " + part + (blank ? " |" + sign.substring(1) : "|" + sign) + ";");
+            }
+        }
+    }
+
+    static void promise05OpenedAndNotClosed() {
+        faults(1, "worth (1|;");
+        faults(1, "worth (1|];");
+        faults(1, "worth (1|,2);");
+        faults(1, "worth min(1|);");
+        faults(1, "worth min(1,2|,3);");
+        faults(1, "worth max(1,2|];");
+        faults(1, "worth if(all|);");
+        faults(1, "worth if(all,1|);");
+        faults(1, "worth if(all,1,2|,3);");
+        faults(1, "worth if([all|,1,2);");
+        faults(1, "worth if([all|),1,2);");
+        faults(1, "worth if(1|,1,2);");
+        faults(1, "worth if(1<2|<3,1,2);");
+        faults(1, "worth if(all|<1,1,2);");
+        faults(1, "worth if((|all);");
+        faults(1, "worth if(not |,1,2);");
+        faults(1, "worth if |all,1,2);");
+        faults(1, "worth min |[1,2];");
+        faults(1, "worth max |1,2);");
+    }
+
     static void promise05TheTextsLengthOfSixteenHundred() {
         faults(1, "seen 1" + blanks(1594) + "|");
         faults(1, "worth 1" + "+1".repeat(796) + "|");
@@ -446,7 +593,18 @@ public final class Bounds04To05Test {
                 first(sign, blank);
                 behindANumber(sign, blank || digit);
                 insideAName(sign, blank || letter);
+                if (";()[],+-*/%<>=".indexOf(octet) < 0 && !blank && !digit && !letter) {
+                    behindEachSign(sign);
+                }
             }
+        }
+    }
+
+    private static void behindEachSign(String sign) {
+        for (String ahead : new String[] {"worth ", "worth (", "worth 1+", "worth 1-", "worth 1*", "worth 1/", "worth 1%",
+                "worth min(1,", "worth if(", "worth if([", "worth if(not ", "worth if(1<", "worth if(1>", "worth if(1=",
+                "worth if(all", "worth if(all,1", "worth (1)", "seen", "tunnel ", "tunnel t gap", "gives "}) {
+            faults(1, ahead + "|" + sign);
         }
     }
 

@@ -219,6 +219,34 @@ public final class Bounds06To15Test {
         }
     }
 
+    /** All rows full: what stands beside a row is not of it. */
+    static void promise08SixTunnelsOfFourLengths() {
+        StringBuilder text = new StringBuilder();
+        for (int t = 0; t < 6; t++) {
+            text.append("tunnel t").append((char) ('a' + t)).append(" gap ").append(t);
+            for (int k = 0; k < 4; k++) {
+                text.append(" at ").append(10 * t + k + 1).append(" weighs ").append(t + k + 1);
+            }
+            text.append(';');
+        }
+        Called x = Called.of(text + "holder a breath 60 laughs 0;holder b breath 2 laughs 0;");
+        for (int t = 0; t < 6; t++) {
+            int all = 4 * t + 10;
+            due(x.tunnel(t, 0), t);
+            due(x.tunnel(t, 1), 4);
+            due(x.tunnel(t, 2), all);
+            for (int k = 0; k < 4; k++) {
+                due(x.tunnel(t, 10 + k), 10 * t + k + 1);
+                due(x.tunnel(t, 20 + k), t + k + 1);
+            }
+            due(x.likely(t, 10 * t), 1000);
+            due(x.likely(t, 10 * t + 3), 1000 * (t + 4) / all);
+            due(x.likely(t, 10 * t + 4), 0);
+            due(x.made(0, t), 1000);
+            due(x.made(1, t), t == 0 ? 300 : 0);
+        }
+    }
+
     // ---- promise 9
 
     static void promise09WhatHeBelievesOfEachTunnel() {
@@ -623,6 +651,14 @@ public final class Bounds06To15Test {
     }
 
     static void promise14OrBehindAndBehindNot() {
+        sum("if(all,1,2)", 1);
+        sum("if(not all,1,2)", 2);
+        sum("if(not 1=1,1,2)", 2);
+        sum("if(not 1=2,1,2)", 1);
+        sum("if(not not not all,1,2)", 2);
+        sum("if(not[all],1,2)", 2);
+        sum("if(not all or not all,1,2)", 2);
+        sum("if(not all or all,1,2)", 1);
         sum("if(all or all and not all,1,2)", 1);
         sum("if([all or all]and not all,1,2)", 2);
         sum("if(not all and all,1,2)", 2);

@@ -98,6 +98,32 @@ public final class Bounds16To23Test {
         alone(x, 0, 5, 5000);
     }
 
+    static void promise16AskedOfOneAndThenOfAnother() {
+        Called x = Called.of("tunnel ta gap 1 at 60 weighs 1;tunnel tb gap 2 at 59 weighs 1;tunnel tc gap 3 at 60 weighs 1;"
+            + "holder ha breath 60 laughs 0;holder hb breath 60 laughs 0;holder hc breath 1 laughs 0;worth held*gap;"
+            + "tires if(breath=1,0,breath);");
+        for (int i = 0; i < 2; i++) {
+            due(x.alone(0, 0, 1), 60000);
+            due(x.alone(0, 1, 1), 118000);
+            due(x.alone(1, 2, 0), 60);
+            due(x.alone(1, 2, 1), 180000);
+            due(x.alone(2, 2, 1), i == 0 ? 3000 : 0);
+            due(x.alone(2, 0, 1), i == 0 ? 1000 : 0);
+            due(x.alone(1, 0, 1), 60000);
+            x.drive(3);
+        }
+    }
+
+    /** A row of four, and the one beside it. */
+    private static final String FOUR = "tunnel ta gap 1 at 1 weighs 1 at 2 weighs 2 at 3 weighs 3 at 4 weighs 4;"
+        + "tunnel tb gap 1 at 60 weighs 9 at 59 weighs 9 at 58 weighs 9 at 57 weighs 9;"
+        + "holder ha breath 60 laughs 0;holder hb breath 2 laughs 0;worth if(long>4,0-held*9,held);";
+
+    static void promise16ARowOfFourLengths() {
+        alone(Called.of(FOUR), 0, 4, 3000);
+        due(Called.of(FOUR).alone(0, 1, 0), 0);
+    }
+
     static void promise16NoneSuchOrOthers() {
         Called x = Called.of(TWO + "worth 0-1;");
         due(x.alone(1, 1, 1), -1000);
@@ -191,6 +217,30 @@ public final class Bounds16To23Test {
         Called x = Called.of("tunnel a gap 1 at 1 weighs 1 at 2 weighs 1;tunnel b gap 2 at 5 weighs 1;"
             + "holder h breath 4 laughs 0;worth if(gap=1,held*5,if(held=4-breath,10,0));tires breath-held;");
         on(x, 2, 2, 17500);
+    }
+
+    static void promise17AskedOfOneAndThenOfAnother() {
+        Called x = Called.of(T + "holder a breath 60 laughs 0;holder b breath 1 laughs 0;worth held;tires breath-1;");
+        for (int i = 0; i < 2; i++) {
+            due(x.on(0, 4, 1), 20000);
+            due(x.on(1, 4, 1), 1000);
+            due(x.on(0, 3, 1), 15000);
+            due(x.on(0, 4, 0), 5);
+            due(x.on(1, 4, 0), 1);
+        }
+        x.drive(1);
+        due(x.on(1, 4, 1), 0);
+        due(x.on(0, 4, 1), 20000);
+        x.undo();
+        due(x.on(1, 4, 1), 1000);
+    }
+
+    static void promise17RowsOfFourLengths() {
+        Called x = Called.of(FOUR);
+        on(x, 1, 4, 3000);
+        on(x, 2, 4, 3000);
+        on(x, 3, 4, 6000);
+        on(x, 4, 4, 6000);
     }
 
     static void promise17NoBreathLeft() {
@@ -336,6 +386,33 @@ public final class Bounds16To23Test {
         rest(Called.of(text + "worth beaten*10-held;"), 2, 0, 1, 2, 3, 4, 6);
     }
 
+    /** What the one ahead of him gets by all 60 seconds is not his. */
+    static void promise18SixtySecondsOfEach() {
+        rest(two(60, "if(held=59,6,if(held=60,5,0))"), 2, 59, 59);
+        rest(two(60, "if(held=59,5,if(held=60,6,0))"), 1, 60, 60);
+    }
+
+    static void promise18AskedAgainBehindEachChange() {
+        Called x = Called.of(TWO + "worth held;tires breath-2;");
+        rest(x, 1, 5, 6);
+        x.drive(1);
+        rest(x, 1, 3, 4);
+        due(x.rest(1, 0), 3);
+        x.pause();
+        rest(x, 1, 5, 6);
+        x.undo();
+        rest(x, 1, 3, 4);
+        due(x.goOnWith(Called.closed(0, 2, 60, 1, 134, 160, 0, 0, 1, 60, 1, 134, 160, 0, 0)), true);
+        rest(x, 1, 2, 1);
+        due(x.read(TWO + "worth 0-held;"), 5);
+        rest(x, 2, 0, 0);
+    }
+
+    static void promise18ARowOfFourLengths() {
+        rest(Called.of(FOUR), 1, 60, 2);
+        due(Called.of(FOUR).rest(1, 0), 0);
+    }
+
     // ---- promise 19
 
     private static void hidden(String text, int pays, int mean) {
@@ -402,6 +479,15 @@ public final class Bounds16To23Test {
         hidden(T + H + "worth 9999;", 0, 999000);
         hidden(T + H + "worth 0-9999;", 0, -999000);
         hidden(T + H + "worth 0-9999;seen 50;fine 999;", 0, -999000);
+    }
+
+    static void promise19ARowOfFourLengths() {
+        Called x = Called.of(FOUR);
+        due(x.hidden(0, 0, 1), 3000);
+        due(x.hidden(0, 0, 0), 0);
+        due(x.hidden(1, 0, 1), 3000);
+        due(x.hidden(1, 0, 0), 1);
+        due(x.hidden(0, 1, 1), (-540 - 531 - 522 - 513) * 1000 / 4);
     }
 
     static void promise19NoneSuchOrOthers() {
@@ -492,6 +578,16 @@ public final class Bounds16To23Test {
         due(x.pace(0, 1, 1), 1000);
     }
 
+    static void promise20ARowOfFourLengths() {
+        Called x = Called.of(FOUR);
+        due(x.pace(0, 1, 0), 1);
+        due(x.pace(0, 1, 1), 700);
+        due(x.pace(0, 3, 0), 2);
+        due(x.pace(0, 3, 1), 1000);
+        due(x.pace(1, 1, 1), 1000);
+        due(x.pace(1, 3, 1), 0);
+    }
+
     static void promise20NoneSuchOrOthers() {
         Called x = Called.of(TWO);
         due(x.pace(1, 3, 1), 1000);
@@ -565,6 +661,19 @@ public final class Bounds16To23Test {
         whom(Called.of(THIRDS + holders + "worth 0-1;"), 0, NONE, -1000);
         whom(Called.of(THIRDS + holders + "worth 0-9999;"), 0, NONE, -999000);
         whom(Called.of(THIRDS + holders + "worth 9999;"), 0, NONE, 999000);
+    }
+
+    static void promise21HeHoldsNothingThen() {
+        Called x = Called.of(T + "holder a breath 1 laughs 0;holder b breath 3 laughs 0;worth last*10+beaten;");
+        whom(x, 0, 1, 11000);
+        x.give(0, 0);
+        whom(x, 0, 1, 10000);
+    }
+
+    static void promise21ARowOfFourLengths() {
+        Called x = Called.of(FOUR);
+        whom(x, 0, NONE, 3000);
+        due(x.whom(1, 1, 1), -18000);
     }
 
     static void promise21NoneSuchOrOthers() {

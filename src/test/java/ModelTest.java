@@ -4,6 +4,8 @@ import java.util.Random;
 public final class ModelTest {
     private static final int[] EDGES = {Integer.MIN_VALUE, Integer.MAX_VALUE, -2, -1, 61, 60, 100, 1 << 30, 256};
 
+    private static final int MOST_CALLS = 512;
+
     private final Check check;
     private final Random random;
     private final BreathRoad x = new BreathRoad();
@@ -29,14 +31,17 @@ public final class ModelTest {
 
     private void go() {
         tell(new RandomRoad(random).text());
-        while (calls < 512) {
+        while (calls < MOST_CALLS) {
             step();
         }
     }
 
     private void due(String call, long got, long want) {
         calls++;
-        check.due("run " + run + ", call " + calls + ": " + call, got, want);
+        // What the last step asks behind the 512th call is free.
+        if (calls <= MOST_CALLS) {
+            check.due("run " + run + ", call " + calls + ": " + call, got, want);
+        }
     }
 
     private void due(String call, boolean got, boolean want) {

@@ -651,7 +651,7 @@ public final class PromisesTest {
         long seed = 2147483647L;
         int[] breath = {25, 40, 12, 60};
         int[] laughs = {5, 0, 50, 1};
-        for (int i = 0; i < 60; i++) {
+        for (int i = 0; i < 40; i++) {
             seed = (1103515245L * seed + 12345) % 2147483648L;
             long which = seed / 64 % 9;
             int length = which < 2 ? 20 : which < 5 ? 9 : 30;
