@@ -58,8 +58,50 @@ final class Bounds {
         }
     }
 
-    static int one(boolean answer) {
-        return answer ? 1 : 0;
+    /** A call about a HOLDER in a TUNNEL. */
+    interface OfBoth {
+        int ask(Called x, int holder, int tunnel);
+    }
+
+    /** So many TUNNELS, 5 and more seconds long, and HOLDERS. */
+    static String many(int tunnels, int holders) {
+        StringBuilder text = new StringBuilder();
+        for (int t = 0; t < tunnels; t++) {
+            text.append("tunnel t").append((char) ('a' + t)).append(" gap ").append(t);
+            text.append(" at ").append(5 + t).append(" weighs 1;");
+        }
+        for (int h = 0; h < holders; h++) {
+            text.append("holder h").append((char) ('a' + h)).append(" breath ").append(20 + h).append(" laughs 0;");
+        }
+        return text.toString();
+    }
+
+    /** Three TUNNELS and two HOLDERS; the first believes the first one, the second the third one too long for him. */
+    static final String UNLIKE = "tunnel ta gap 1 at 5 weighs 1;tunnel tb gap 10 at 8 weighs 1 at 3 weighs 3;"
+        + "tunnel tc gap 40 at 20 weighs 1;holder ha breath 6 laughs 0;holder hb breath 30 laughs 0;"
+        + "thinks ha ta 7;thinks hb tc 31;";
+
+    /** What is due of each HOLDER of UNLIKE in each TUNNEL. */
+    static void dueOfEach(Called x, OfBoth call, int... want) {
+        for (int h = 0; h < 2; h++) {
+            for (int t = 0; t < 3; t++) {
+                due(call.ask(x, h, t), want[3 * h + t]);
+            }
+        }
+    }
+
+    /** The answer is due where there is no such HOLDER or no such TUNNEL, and nowhere else. */
+    static void dueToNoneSuch(int want, OfBoth call) {
+        int[][] counts = {{0, 0}, {0, 1}, {1, 0}, {1, 3}, {3, 1}, {2, 6}, {6, 2}, {6, 6}};
+        for (int[] count : counts) {
+            Called x = Called.of(many(count[0], count[1]) + "worth 7+held+gap;");
+            for (int t = -1; t <= count[0] + 1; t++) {
+                for (int h = -1; h <= count[1] + 1; h++) {
+                    boolean there = t >= 0 && t < count[0] && h >= 0 && h < count[1];
+                    due(call.ask(x, h, t) == want, !there);
+                }
+            }
+        }
     }
 
     /** All that can be asked, line by line: what was refused and the tape are not among it. */

@@ -572,6 +572,12 @@ public final class Bounds04To05Test {
         faults(1, "worth if((|all);");
         faults(1, "worth if(not |,1,2);");
         faults(1, "worth if |all,1,2);");
+        for (String word : new String[] {"min", "max", "if"}) {
+            for (String ahead : new String[] {"", "1+", "2*", "(3)-"}) {
+                faults(1, "worth " + ahead + word + "|;");
+                faults(1, "worth " + ahead + word + "|+1;");
+            }
+        }
         faults(1, "worth min |[1,2];");
         faults(1, "worth max |1,2);");
     }

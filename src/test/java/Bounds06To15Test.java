@@ -450,6 +450,15 @@ public final class Bounds06To15Test {
         due(Called.of(H).holds(0, 0, 5), NONE);
     }
 
+    static void promise12JustThoseThatThereAre() {
+        Bounds.dueToNoneSuch(NONE, (x, h, t) -> x.holds(h, t, 5));
+    }
+
+    static void promise12OfThisHolderInThisTunnel() {
+        Called x = Called.of(Bounds.UNLIKE);
+        Bounds.dueOfEach(x, (y, h, t) -> y.holds(h, t, 8), 0, 6, 6, 8, 8, 0);
+    }
+
     // ---- promise 13
 
     static void promise13JustItsLengthAndOneLess() {
@@ -485,6 +494,15 @@ public final class Bounds06To15Test {
         Bounds.dueToEach(NONE, t -> x.made(0, t), -1, 2, LEAST, MOST);
         due(Called.of(T).made(0, 0), NONE);
         due(Called.of(H).made(0, 0), NONE);
+    }
+
+    static void promise13JustThoseThatThereAre() {
+        Bounds.dueToNoneSuch(NONE, (x, h, t) -> x.made(h, t));
+    }
+
+    static void promise13OfThisHolderInThisTunnel() {
+        Called x = Called.of(Bounds.UNLIKE);
+        Bounds.dueOfEach(x, (y, h, t) -> y.made(h, t), 0, 750, 0, 1000, 1000, 0);
     }
 
     // ---- promise 14
@@ -679,6 +697,15 @@ public final class Bounds06To15Test {
         due(x.worth(0, 0, 5), 1);
     }
 
+    static void promise14JustThoseThatThereAre() {
+        Bounds.dueToNoneSuch(NOTHING, (x, h, t) -> x.worth(h, t, 5));
+    }
+
+    static void promise14OfThisHolderInThisTunnel() {
+        Called x = Called.of(Bounds.UNLIKE + "worth held*10+gap+last*3+beaten;");
+        Bounds.dueOfEach(x, (y, h, t) -> y.worth(h, t, y.tunnel(t, 10)), 1, 70, 104, 55, 94, 40);
+    }
+
     // ---- promise 15
 
     static void promise15HeldAllAndOneMore() {
@@ -747,5 +774,14 @@ public final class Bounds06To15Test {
         Bounds.dueToEach(NONE, t -> x.tired(0, t, 5, 5), -1, 2, LEAST, MOST);
         due(Called.of(T).tired(0, 0, 5, 5), NONE);
         due(Called.of(H).tired(0, 0, 5, 5), NONE);
+    }
+
+    static void promise15JustThoseThatThereAre() {
+        Bounds.dueToNoneSuch(NONE, (x, h, t) -> x.tired(h, t, 5, 5));
+    }
+
+    static void promise15OfThisHolderInThisTunnel() {
+        Called x = Called.of(Bounds.UNLIKE + "tires breath+gap-held;");
+        Bounds.dueOfEach(x, (y, h, t) -> y.tired(h, t, 5, 5), 2, 11, 41, 26, 35, 60);
     }
 }

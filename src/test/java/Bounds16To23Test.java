@@ -134,6 +134,16 @@ public final class Bounds16To23Test {
         due(Called.of(H).alone(0, 0, 0), NOTHING);
     }
 
+    static void promise16JustThoseThatThereAre() {
+        Bounds.dueToNoneSuch(NOTHING, (x, h, t) -> x.alone(h, t, 1));
+    }
+
+    static void promise16OfThisHolderInThisTunnel() {
+        Called x = Called.of(Bounds.UNLIKE + "worth held*10+gap+last*3+beaten;");
+        Bounds.dueOfEach(x, (y, h, t) -> y.alone(h, t, 0), 5, 6, 6, 5, 8, 20);
+        Bounds.dueOfEach(x, (y, h, t) -> y.alone(h, t, 1), 54000, 50500, 103000, 54000, 55500, 243000);
+    }
+
     // ---- promise 17
 
     private static void on(Called x, int n, int second, int mean) {
@@ -243,6 +253,11 @@ public final class Bounds16To23Test {
         on(x, 4, 4, 6000);
     }
 
+    static void promise17TiredByItsLengthToo() {
+        on(Called.of(T + "holder h breath 3 laughs 0;worth held;tires long;"), 2, 3, 8000);
+        on(Called.of(T + "holder h breath 3 laughs 0;worth held;tires gap;"), 2, 3, 4000);
+    }
+
     static void promise17NoBreathLeft() {
         Called x = Called.of(T + H + "worth held*10+breath-1;tires breath;");
         due(x.goOnWith(Called.closed(0, 0, 60, 1, 134, 160, 0)), true);
@@ -273,6 +288,10 @@ public final class Bounds16To23Test {
         x.believe(0, 0, 60);
         x.give(0, 0);
         on(x, 4, 5, 420000);
+    }
+
+    static void promise17JustThoseThatThereAre() {
+        Bounds.dueToNoneSuch(NOTHING, (x, h, t) -> t < 0 || t >= x.has(0) ? NOTHING : x.on(h, 1, 1));
     }
 
     // ---- promise 18
@@ -413,6 +432,16 @@ public final class Bounds16To23Test {
         due(Called.of(FOUR).rest(1, 0), 0);
     }
 
+    static void promise18JustThoseThatThereAre() {
+        Bounds.dueToNoneSuch(NONE, (x, h, t) -> h < 0 ? NONE : x.rest(t, h));
+    }
+
+    static void promise18OfThisHolderInThisTunnel() {
+        Called x = Called.of(Bounds.UNLIKE + "worth if(gap=10,0-held,held);");
+        Bounds.dueOfEach(x, (y, h, t) -> y.rest(t, h), 6, 0, 6, 30, 0, 30);
+        Bounds.dueOfEach(x, (y, h, t) -> y.rest(t, NONE), 1, 2, 1, 1, 2, 1);
+    }
+
     // ---- promise 19
 
     private static void hidden(String text, int pays, int mean) {
@@ -498,6 +527,16 @@ public final class Bounds16To23Test {
         Bounds.dueToEach(NOTHING, what -> x.hidden(0, 0, what), -1, 2, LEAST, MOST);
         due(Called.of(T).hidden(0, 0, 0), NOTHING);
         due(Called.of(H).hidden(0, 0, 0), NOTHING);
+    }
+
+    static void promise19JustThoseThatThereAre() {
+        Bounds.dueToNoneSuch(NOTHING, (x, h, t) -> x.hidden(h, t, 1));
+    }
+
+    static void promise19OfThisHolderInThisTunnel() {
+        Called x = Called.of(Bounds.UNLIKE + "worth held+gap+breath;");
+        Bounds.dueOfEach(x, (y, h, t) -> y.hidden(h, t, 1), 12000, 20250, 66000, 36000, 44250, 90000);
+        Bounds.dueOfEach(x, (y, h, t) -> y.hidden(h, t, 0), 0, 1, 1, 0, 0, 0);
     }
 
     // ---- promise 20
@@ -596,6 +635,10 @@ public final class Bounds16To23Test {
         due(Called.of(H).pace(0, 1, 0), NONE);
     }
 
+    static void promise20JustThoseThatThereAre() {
+        Bounds.dueToNoneSuch(NONE, (x, h, t) -> h < 0 ? NONE : x.pace(t, 1 << h, 0));
+    }
+
     // ---- promise 21
 
     private static void whom(Called x, int holder, int who, int mean) {
@@ -685,6 +728,16 @@ public final class Bounds16To23Test {
         Bounds.dueToEach(NOTHING, what -> x.whom(0, 0, what), -1, 2, LEAST, MOST);
         due(Called.of(T).whom(0, 0, 0), NOTHING);
         due(Called.of(H).whom(0, 0, 0), NOTHING);
+    }
+
+    static void promise21JustThoseThatThereAre() {
+        Bounds.dueToNoneSuch(NOTHING, (x, h, t) -> x.whom(h, t, 1));
+    }
+
+    static void promise21OfThisHolderInThisTunnel() {
+        Called x = Called.of(Bounds.UNLIKE + "worth held*10+gap+last*3+beaten;");
+        Bounds.dueOfEach(x, (y, h, t) -> y.whom(h, t, 0), 1, 1, NONE, NONE, 0, 0);
+        Bounds.dueOfEach(x, (y, h, t) -> y.whom(h, t, 1), 4000, 51500, 104000, 55000, 56500, 43000);
     }
 
     // ---- promise 22
@@ -804,6 +857,10 @@ public final class Bounds16To23Test {
         due(x.has(6), 0);
         due(x.undo(), false);
         due(x.fit(0), 1);
+    }
+
+    static void promise22JustThoseThatThereAre() {
+        Bounds.dueToNoneSuch(NONE, (x, h, t) -> faces(x, t, h & 255, 5));
     }
 
     // ---- promise 23

@@ -254,6 +254,17 @@ public final class Bounds24To30Test {
         due(x.holder(1, 0), 5);
     }
 
+    static void promise24WorthAndTiredByItsLengthAndGap() {
+        Called x = Called.of("tunnel ta gap 1 at 20 weighs 1;tunnel tb gap 2 at 30 weighs 1;" + H
+            + "worth long*10+gap+held;tires long+gap;");
+        due(x.drive(1), 5);
+        due(x.score(0), 206);
+        due(x.holder(0, 0), 21);
+        due(x.drive(1), 21);
+        due(x.score(0), 206 + 323);
+        due(x.holder(0, 0), 32);
+    }
+
     static void promise24TiredFromZeroToSixty() {
         Called x = Called.of(T + H + "tires breath-held;");
         due(x.drive(1), 5);
@@ -418,6 +429,10 @@ public final class Bounds24To30Test {
         due(x.has(2), 77);
     }
 
+    static void promise26JustThoseThatThereAre() {
+        Bounds.dueToNoneSuch(NONE, (x, h, t) -> x.believe(h, t, 5));
+    }
+
     // ---- promise 27
 
     static void promise27SecondsOfZeroAndOfSixty() {
@@ -459,6 +474,10 @@ public final class Bounds24To30Test {
         Bounds.refuses(x, 2, () -> x.give(0, 61), () -> x.give(0, -1), () -> x.give(2, 5), () -> x.give(-1, 5));
         due(x.road(), 1);
         due(x.has(2), 77);
+    }
+
+    static void promise27JustThoseThatThereAre() {
+        Bounds.dueToNoneSuch(NONE, (x, h, t) -> t < 0 || t >= x.has(0) ? NONE : x.give(h, 5));
     }
 
     // ---- promise 28

@@ -127,6 +127,20 @@ public final class Bounds31To34Test {
         due(x.has(2), 77);
     }
 
+    static void promise31MoreTunnelsThanHoldersAndFewer() {
+        Called x = Called.of(Bounds.many(3, 1));
+        x.believe(0, 0, 7);
+        x.believe(0, 1, 8);
+        x.believe(0, 2, 9);
+        octets(x, 0, 20, 60, 1, 134, 160, 7, 8, 9);
+        x = Called.of(Bounds.many(1, 3));
+        for (int h = 0; h < 3; h++) {
+            x.believe(h, 0, 7 + h);
+            x.give(h, 30 + h);
+        }
+        octets(x, 0, 20, 30, 1, 134, 160, 7, 21, 31, 1, 134, 160, 8, 22, 32, 1, 134, 160, 9);
+    }
+
     // ---- promise 32
 
     static void promise32AheadOfAnyImage() {
@@ -224,6 +238,25 @@ public final class Bounds31To34Test {
         due(x.score(0), 1);
         due(x.goOnWith(Called.closed(1, 0, 59, 1, 134, 161)), false);
         due(x.goOnWith(Called.closed(0, 0, 59, 1, 134, 161, 0)), false);
+    }
+
+    static void promise33MoreTunnelsThanHoldersAndFewer() {
+        int[] wide = {2, 20, 60, 1, 134, 161, 7, 8, 9};
+        Called x = Called.of(Bounds.many(3, 1));
+        due(x.goOnWith(Called.closed(wide)), true);
+        due(x.score(0), 1);
+        for (int t = 0; t < 3; t++) {
+            due(x.holder(0, 10 + t), 7 + t);
+        }
+        octets(x, wide);
+        int[] high = {0, 20, 30, 1, 134, 161, 7, 21, 31, 1, 134, 162, 8, 22, 32, 1, 134, 163, 9};
+        x = Called.of(Bounds.many(1, 3));
+        due(x.goOnWith(Called.closed(high)), true);
+        for (int h = 0; h < 3; h++) {
+            due(x.score(h), 1 + h);
+            due(x.holder(h, 10), 7 + h);
+        }
+        octets(x, high);
     }
 
     static void promise33ATunnelThatThereIs() {
