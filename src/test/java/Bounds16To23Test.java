@@ -539,6 +539,20 @@ public final class Bounds16To23Test {
         Bounds.dueOfEach(x, (y, h, t) -> y.hidden(h, t, 0), 0, 1, 1, 0, 0, 0);
     }
 
+    static void promise19AgainstAloneInThisTunnel() {
+        Called x = Called.of("tunnel ta gap 1 at 5 weighs 1;tunnel tb gap 50 at 9 weighs 1;holder ha breath 3 laughs 0;"
+            + "holder hb breath 5 laughs 0;worth held+gap;");
+        // 6 against 4, 59 against 53; 6 against 6, 59 against 55.
+        int[] pays = {1, 1, 0, 1};
+        for (int i = 0; i < 4; i++) {
+            due(x.hidden(i / 2, i % 2, 0), pays[i]);
+        }
+        x.give(1, 3);
+        due(x.hidden(1, 0, 0), 0);
+        due(x.goOnWith(Called.closed(0, 3, 60, 1, 134, 160, 0, 0, 4, 60, 1, 134, 160, 0, 0)), true);
+        due(x.hidden(1, 0, 0), 1);
+    }
+
     // ---- promise 20
 
     /** For each second at which he gives up: the least pace by which he makes it. */
@@ -934,6 +948,15 @@ public final class Bounds16To23Test {
         x.pause();
         x.give(0, 4);
         fit(x, 2, 666);
+    }
+
+    /** A ROAD takes FACES away, by its promise; goOn's promise does not say so. */
+    static void promise23StillToldBehindAnImage() {
+        Called x = Called.of(TWO);
+        due(faces(x, 0, 0, 4), 1);
+        fit(x, 0, 0);
+        due(x.goOnWith(Called.closed(0, 4, 60, 1, 134, 160, 0, 0, 6, 60, 1, 134, 160, 0, 0)), true);
+        fit(x, 1, 1000);
     }
 
     static void promise23OfItsTunnel() {

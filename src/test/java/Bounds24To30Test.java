@@ -727,6 +727,25 @@ public final class Bounds24To30Test {
         }
     }
 
+    static void promise30TwiceAndThreeTimesFortyEight() {
+        Called x = Called.of("tunnel t gap 1 at 60 weighs 1;holder h breath 1 laughs 0;tires if(breath=60,1,breath+1);");
+        int all = 0;
+        for (int n : new int[] {30, 30, 30, 5, 1, 1, 30, 16, 1, 1}) {
+            x.drive(n);
+            all += n;
+            if (all >= 95) {
+                int first = all - 48;
+                for (int k : new int[] {0, 1, 2, 23, 24, 45, 46, 47}) {
+                    due(x.kept(k, 0), 0);
+                    due(x.kept(k, 1), 60);
+                    due(x.kept(k, 3), (first + k) % 60 + 1);
+                }
+                due(x.has(5), 48);
+                due(x.kept(48, 3), NONE);
+            }
+        }
+    }
+
     static void promise30HolderByHolderFromTheOldestOn() {
         Called x = Called.of(TWO + "holder hc breath 1 laughs 0;holder hd breath 2 laughs 0;holder he breath 3 laughs 0;");
         x.drive(10);

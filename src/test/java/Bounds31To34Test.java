@@ -179,6 +179,8 @@ public final class Bounds31To34Test {
         due(x.read("!"), NONE);
         due(x.octet(2), 7);
         due(x.read(""), 0);
+        due(x.octet(2), 7);
+        due(x.octet(15) >= 0, true);
         due(x.image(), 2);
         due(x.octet(1), 33);
         due(x.octet(2), NONE);
