@@ -129,10 +129,10 @@ public final class BreathRoad {
             return NONE;
         }
         if (kind == 0 && judge.road.hasTunnel(which)) {
-            return Reader.letterOf(judge.road.tunnelNames[which], k);
+            return Reader.letterOf(valueAt(judge.road.tunnelNames, which), k);
         }
         if (kind == 1 && judge.road.hasHolder(which)) {
-            return Reader.letterOf(judge.road.holderNames[which], k);
+            return Reader.letterOf(valueAt(judge.road.holderNames, which), k);
         }
         return NONE;
     }
@@ -142,7 +142,7 @@ public final class BreathRoad {
         if (!road.hasTunnel(tunnel)) {
             return NONE;
         }
-        int lengths = road.lengthCounts[tunnel];
+        int lengths = road.lengthCount(tunnel);
         if (what >= 10 && what < 10 + lengths) {
             return road.lengthAt(tunnel, what - 10);
         }
@@ -150,7 +150,7 @@ public final class BreathRoad {
             return road.weightAt(tunnel, what - 20);
         }
         switch (what) {
-            case 0: return road.gaps[tunnel];
+            case 0: return valueAt(road.gaps, tunnel);
             case 1: return lengths;
             case 2: return road.allWeights(tunnel);
             default: return NONE;
@@ -167,8 +167,8 @@ public final class BreathRoad {
         }
         switch (what) {
             case 0: return now.breathOf(holder);
-            case 1: return road.breaths[holder];
-            case 2: return road.laughs[holder];
+            case 1: return valueAt(road.breaths, holder);
+            case 2: return valueAt(road.laughs, holder);
             case 3: return now.givesOf(holder);
             default: return NONE;
         }
@@ -184,7 +184,7 @@ public final class BreathRoad {
             return NONE;
         }
         int longer = 0;
-        for (int k = 0; k < road.lengthCounts[tunnel]; k++) {
+        for (int k = 0; k < road.lengthCount(tunnel); k++) {
             if (road.lengthAt(tunnel, k) > seconds) {
                 longer += road.weightAt(tunnel, k);
             }
@@ -205,7 +205,7 @@ public final class BreathRoad {
             return NONE;
         }
         int all = 0;
-        for (int k = 0; k < road.lengthCounts[tunnel]; k++) {
+        for (int k = 0; k < road.lengthCount(tunnel); k++) {
             int length = road.lengthAt(tunnel, k);
             if (judge.secondsHeld(holder, tunnel, length) == length) {
                 all += road.weightAt(tunnel, k);
@@ -261,7 +261,7 @@ public final class BreathRoad {
             return NONE;
         }
         chooser.settle(tunnel);
-        return chooser.settledSeconds[k];
+        return valueAt(chooser.settledSeconds, k);
     }
 
     public int hidden(int holder, int tunnel, int what) {
@@ -312,7 +312,7 @@ public final class BreathRoad {
         Road road = judge.road;
         int bits = 0;
         int weights = 0;
-        for (int k = 0; k < road.lengthCounts[told.tunnel]; k++) {
+        for (int k = 0; k < road.lengthCount(told.tunnel); k++) {
             if (told.fitLength(judge, road.lengthAt(told.tunnel, k))) {
                 bits |= 1 << k;
                 weights += road.weightAt(told.tunnel, k);
@@ -342,8 +342,9 @@ public final class BreathRoad {
         Road road = judge.road;
         int more = 0;
         for (int h = 0; h < road.holders; h++) {
-            more += road.breaths[h] - now.breathOf(h);
-            now.setBreath(h, road.breaths[h]);
+            int breath = valueAt(road.breaths, h);
+            more += breath - now.breathOf(h);
+            now.setBreath(h, breath);
         }
         return more;
     }
@@ -438,13 +439,14 @@ public final class BreathRoad {
         int length = drawLength(tunnel);
         int seconds = 0;
         for (int h = 0; h < road.holders; h++) {
-            judge.held[h] = drawHeld(road.laughs[h], judge.secondsHeld(h, tunnel, length));
-            seconds += judge.held[h];
+            int held = drawHeld(valueAt(road.laughs, h), judge.secondsHeld(h, tunnel, length));
+            setAt(judge.held, h, held);
+            seconds += held;
         }
         for (int h = 0; h < road.holders; h++) {
             now.addScore(h, judge.worthAmong(h, tunnel, length));
             now.setBreath(h, judge.tiredAmong(h, tunnel, length));
-            now.keep(tunnel, length, h, judge.held[h]);
+            now.keep(tunnel, length, h, valueAt(judge.held, h));
         }
         now.setNextTunnel(tunnel + 1 < road.tunnels ? tunnel + 1 : 0);
         return seconds;
@@ -453,7 +455,7 @@ public final class BreathRoad {
     private int drawLength(int tunnel) {
         Road road = judge.road;
         int left = draw(road.allWeights(tunnel));
-        int last = road.lengthCounts[tunnel] - 1;
+        int last = road.lengthCount(tunnel) - 1;
         for (int k = 0; k < last; k++) {
             left -= road.weightAt(tunnel, k);
             if (left < 0) {
@@ -494,6 +496,27 @@ public final class BreathRoad {
 
     private static int within(int value, int least, int most) {
         return Math.max(least, Math.min(most, value));
+    }
+
+    /** 0 where there is no such place: an index is looked at here, whoever looked at it ahead of this. */
+    private static int valueAt(int[] row, int k) {
+        return k >= 0 && k < row.length ? row[k] : 0;
+    }
+
+    private static long valueAt(long[] row, int k) {
+        return k >= 0 && k < row.length ? row[k] : 0;
+    }
+
+    private static void setAt(int[] row, int k, int value) {
+        if (k >= 0 && k < row.length) {
+            row[k] = value;
+        }
+    }
+
+    private static void setAt(long[] row, int k, long value) {
+        if (k >= 0 && k < row.length) {
+            row[k] = value;
+        }
     }
 
     /** The bytes that were fed and not yet used. */
@@ -558,16 +581,20 @@ public final class BreathRoad {
             return hasHolder(holder) && hasTunnel(tunnel);
         }
 
+        int lengthCount(int tunnel) {
+            return valueAt(lengthCounts, tunnel);
+        }
+
         int lengthAt(int tunnel, int k) {
-            return lengths[tunnel * MOST_LENGTHS + k];
+            return valueAt(lengths, tunnel * MOST_LENGTHS + k);
         }
 
         int weightAt(int tunnel, int k) {
-            return weights[tunnel * MOST_LENGTHS + k];
+            return valueAt(weights, tunnel * MOST_LENGTHS + k);
         }
 
         boolean hasLength(int tunnel, int length) {
-            for (int k = 0; k < lengthCounts[tunnel]; k++) {
+            for (int k = 0; k < lengthCount(tunnel); k++) {
                 if (lengthAt(tunnel, k) == length) {
                     return true;
                 }
@@ -577,7 +604,7 @@ public final class BreathRoad {
 
         int allWeights(int tunnel) {
             int all = 0;
-            for (int k = 0; k < lengthCounts[tunnel]; k++) {
+            for (int k = 0; k < lengthCount(tunnel); k++) {
                 all += weightAt(tunnel, k);
             }
             return all;
@@ -647,20 +674,20 @@ public final class BreathRoad {
         }
 
         boolean isTold(int which) {
-            return ends[which] > begins[which];
+            return valueAt(ends, which) > valueAt(begins, which);
         }
 
         /** 0 for a sum that is not told. */
         int valueOf(int which, int[] facts) {
-            int behind = ends[which];
+            int behind = valueAt(ends, which);
             top = 0;
-            for (int at = begins[which]; at < behind; at++) {
-                int op = codes[at] % OPS;
-                int number = codes[at] / OPS;
+            for (int at = valueAt(begins, which); at < behind; at++) {
+                int op = valueAt(codes, at) % OPS;
+                int number = valueAt(codes, at) / OPS;
                 if (op == NUMBER) {
                     push(number);
                 } else if (op == FACT) {
-                    push(facts[number]);
+                    push(valueAt(facts, number));
                 } else if (op == SKIP || op == UNLESS && pop() == 0) {
                     at = Math.max(at, number - 1);
                 } else if (op == NOT) {
@@ -992,9 +1019,9 @@ public final class BreathRoad {
             }
             int tunnel = road.tunnels;
             advance();
-            road.tunnelNames[tunnel] = takeNewName();
+            setAt(road.tunnelNames, tunnel, takeNewName());
             takeWord(GAP_WORD);
-            road.gaps[tunnel] = takeNumber(0, 99);
+            setAt(road.gaps, tunnel, takeNumber(0, 99));
             readLength(tunnel);
             for (int k = 1; k <= MOST_LENGTHS && ownWord == AT; k++) {
                 readLength(tunnel);
@@ -1003,7 +1030,7 @@ public final class BreathRoad {
         }
 
         private void readLength(int tunnel) {
-            int k = road.lengthCounts[tunnel];
+            int k = road.lengthCount(tunnel);
             if (k >= MOST_LENGTHS) {
                 fail(TOO_MANY, from);
                 return;
@@ -1012,10 +1039,10 @@ public final class BreathRoad {
             if (token == NUMBER && road.hasLength(tunnel, number)) {
                 fail(NUMBER_UNFIT, from);
             }
-            road.lengths[tunnel * MOST_LENGTHS + k] = takeNumber(1, MOST_SECONDS);
+            setAt(road.lengths, tunnel * MOST_LENGTHS + k, takeNumber(1, MOST_SECONDS));
             takeWord(WEIGHS);
-            road.weights[tunnel * MOST_LENGTHS + k] = takeNumber(1, 9);
-            road.lengthCounts[tunnel] = k + 1;
+            setAt(road.weights, tunnel * MOST_LENGTHS + k, takeNumber(1, 9));
+            setAt(road.lengthCounts, tunnel, k + 1);
         }
 
         private void readHolder() {
@@ -1025,11 +1052,11 @@ public final class BreathRoad {
             }
             int holder = road.holders;
             advance();
-            road.holderNames[holder] = takeNewName();
+            setAt(road.holderNames, holder, takeNewName());
             takeWord(BREATH_WORD);
-            road.breaths[holder] = takeNumber(1, MOST_SECONDS);
+            setAt(road.breaths, holder, takeNumber(1, MOST_SECONDS));
             takeWord(LAUGHS);
-            road.laughs[holder] = takeNumber(0, 50);
+            setAt(road.laughs, holder, takeNumber(0, 50));
             road.holders++;
         }
 
@@ -1039,7 +1066,7 @@ public final class BreathRoad {
             int tunnel = takeTunnel();
             int length = takeNumber(1, MOST_SECONDS);
             if (road.hasBoth(holder, tunnel)) {
-                road.thinks[holder * MOST + tunnel] = length;
+                setAt(road.thinks, holder * MOST + tunnel, length);
             }
         }
 
@@ -1048,7 +1075,7 @@ public final class BreathRoad {
             int holder = takeHolder();
             int second = takeNumber(0, MOST_SECONDS);
             if (road.hasHolder(holder)) {
-                road.gives[holder] = second;
+                setAt(road.gives, holder, second);
             }
         }
 
@@ -1058,9 +1085,9 @@ public final class BreathRoad {
                 return;
             }
             advance();
-            road.sums.begins[which] = road.sums.size;
+            setAt(road.sums.begins, which, road.sums.size);
             readSum(0);
-            road.sums.ends[which] = road.sums.size;
+            setAt(road.sums.ends, which, road.sums.size);
         }
 
         // ---- sums and tests; open tells how many ( [ not are open
@@ -1250,44 +1277,44 @@ public final class BreathRoad {
         }
 
         int breathOf(int holder) {
-            return row[BREATHS + holder];
+            return valueAt(row, BREATHS + holder);
         }
 
         void setBreath(int holder, int breath) {
-            row[BREATHS + holder] = breath;
+            setAt(row, BREATHS + holder, breath);
         }
 
         int givesOf(int holder) {
-            return row[GIVES + holder];
+            return valueAt(row, GIVES + holder);
         }
 
         void setGives(int holder, int second) {
-            row[GIVES + holder] = second;
+            setAt(row, GIVES + holder, second);
         }
 
         int scoreOf(int holder) {
-            return row[SCORES + holder];
+            return valueAt(row, SCORES + holder);
         }
 
         void setScore(int holder, int score) {
-            row[SCORES + holder] = score;
+            setAt(row, SCORES + holder, score);
         }
 
         void addScore(int holder, int worth) {
-            row[SCORES + holder] = within(row[SCORES + holder] + worth, -MOST_SCORE, MOST_SCORE);
+            setScore(holder, within(scoreOf(holder) + worth, -MOST_SCORE, MOST_SCORE));
         }
 
         int thinksOf(int holder, int tunnel) {
-            return row[THINKS + holder * MOST + tunnel];
+            return valueAt(row, THINKS + holder * MOST + tunnel);
         }
 
         void setThinks(int holder, int tunnel, int length) {
-            row[THINKS + holder * MOST + tunnel] = length;
+            setAt(row, THINKS + holder * MOST + tunnel, length);
         }
 
         /** Four parts in one number, a byte each. */
         void keep(int tunnel, int length, int holder, int held) {
-            row[KEPT + row[KEPT_EVER] % MOST_KEPT] = tunnel << 24 | length << 16 | holder << 8 | held;
+            setAt(row, KEPT + row[KEPT_EVER] % MOST_KEPT, tunnel << 24 | length << 16 | holder << 8 | held);
             row[KEPT_EVER]++;
             // Counts on from one full ring again, so that it never grows too great.
             if (row[KEPT_EVER] == 2 * MOST_KEPT) {
@@ -1308,7 +1335,7 @@ public final class BreathRoad {
                 return NONE;
             }
             int which = (row[KEPT_EVER] - keptCount() + k) % MOST_KEPT;
-            return row[KEPT + which] >> 24 - 8 * part & 255;
+            return valueAt(row, KEPT + which) >> 24 - 8 * part & 255;
         }
     }
 
@@ -1350,7 +1377,7 @@ public final class BreathRoad {
 
         void allHold(int tunnel, int length) {
             for (int h = 0; h < road.holders; h++) {
-                held[h] = secondsHeld(h, tunnel, length);
+                setAt(held, h, secondsHeld(h, tunnel, length));
             }
         }
 
@@ -1397,16 +1424,17 @@ public final class BreathRoad {
             facts[LAST] = 1;
             facts[BEATEN] = 0;
             facts[BREATH] = breath;
-            facts[GAP] = road.gaps[tunnel];
+            facts[GAP] = valueAt(road.gaps, tunnel);
         }
 
         private void tellAmong(int holder, int tunnel, int length) {
-            tellAlone(tunnel, length, held[holder], now.breathOf(holder));
+            int own = valueAt(held, holder);
+            tellAlone(tunnel, length, own, now.breathOf(holder));
             for (int h = 0; h < road.holders; h++) {
-                if (held[h] > held[holder]) {
+                if (valueAt(held, h) > own) {
                     facts[LAST] = 0;
                 }
-                if (held[h] < held[holder]) {
+                if (valueAt(held, h) < own) {
                     facts[BEATEN]++;
                 }
             }
@@ -1451,13 +1479,13 @@ public final class BreathRoad {
             plannedTunnel = tunnel;
             plannedCount = n;
             plannedBreath = breath;
-            wholes[n] = 1;
+            setAt(wholes, n, 1);
             for (int stage = n - 1; stage >= 0; stage--) {
-                wholes[stage] = wholes[stage + 1] * judge.road.allWeights(tunnelAt(stage));
+                setAt(wholes, stage, valueAt(wholes, stage + 1) * judge.road.allWeights(tunnelAt(stage)));
             }
             Arrays.fill(bests, UNKNOWN);
             planTotal = bestFrom(0, breath);
-            planWhole = wholes[0];
+            planWhole = valueAt(wholes, 0);
             planSecond = bestSecond(0, breath);
         }
 
@@ -1471,15 +1499,21 @@ public final class BreathRoad {
                 return 0;
             }
             int row = stage * SECONDS;
-            if (bests[row + breath] == UNKNOWN) {
-                Arrays.fill(totals, row, row + SECONDS, 0);
-                int lengths = judge.road.lengthCounts[tunnelAt(stage)];
+            if (valueAt(bests, row + breath) == UNKNOWN) {
+                clearTotals(row);
+                int lengths = judge.road.lengthCount(tunnelAt(stage));
                 for (int k = 0; k < lengths; k++) {
                     addPlanned(stage, k, breath);
                 }
-                bests[row + breath] = totals[row + bestSecond(row, breath)];
+                setAt(bests, row + breath, valueAt(totals, row + bestSecond(row, breath)));
             }
-            return bests[row + breath];
+            return valueAt(bests, row + breath);
+        }
+
+        private void clearTotals(int row) {
+            for (int second = 0; second < SECONDS; second++) {
+                setAt(totals, row + second, 0);
+            }
         }
 
         private void addPlanned(int stage, int k, int breath) {
@@ -1488,7 +1522,7 @@ public final class BreathRoad {
             int weight = judge.road.weightAt(tunnel, k);
             boolean goesOn = stage + 1 < plannedCount;
             for (int held = 0; held <= Math.min(length, breath); held++) {
-                long total = judge.worthAlone(tunnel, length, held, breath) * wholes[stage + 1];
+                long total = judge.worthAlone(tunnel, length, held, breath) * valueAt(wholes, stage + 1);
                 if (goesOn) {
                     total += bestFrom(stage + 1, judge.tiredAlone(tunnel, length, held, breath));
                 }
@@ -1499,14 +1533,14 @@ public final class BreathRoad {
         /** Whoever gives up behind the tunnel's end holds just its length. */
         private void addToSeconds(int row, int first, int last, long total) {
             for (int second = first; second <= last; second++) {
-                totals[row + second] += total;
+                setAt(totals, row + second, valueAt(totals, row + second) + total);
             }
         }
 
         private int bestSecond(int row, int breath) {
             int best = 0;
             for (int second = 1; second <= breath; second++) {
-                if (totals[row + second] > totals[row + best]) {
+                if (valueAt(totals, row + second) > valueAt(totals, row + best)) {
                     best = second;
                 }
             }
@@ -1521,7 +1555,7 @@ public final class BreathRoad {
             }
             settledTunnel = tunnel;
             for (int h = 0; h < judge.road.holders; h++) {
-                settledSeconds[h] = judge.now.breathOf(h);
+                setAt(settledSeconds, h, judge.now.breathOf(h));
             }
             settledRound = MOST_ROUNDS + 1;
             for (int round = 1; round <= MOST_ROUNDS; round++) {
@@ -1538,8 +1572,8 @@ public final class BreathRoad {
                 int breath = judge.now.breathOf(h);
                 fillAgainstOthers(h, tunnel, breath);
                 int best = bestSecond(0, breath);
-                if (totals[best] > totals[settledSeconds[h]]) {
-                    settledSeconds[h] = best;
+                if (valueAt(totals, best) > valueAt(totals, valueAt(settledSeconds, h))) {
+                    setAt(settledSeconds, h, best);
                     moved = true;
                 }
             }
@@ -1547,15 +1581,15 @@ public final class BreathRoad {
         }
 
         private void fillAgainstOthers(int holder, int tunnel, int breath) {
-            Arrays.fill(totals, 0, SECONDS, 0);
-            for (int k = 0; k < judge.road.lengthCounts[tunnel]; k++) {
+            clearTotals(0);
+            for (int k = 0; k < judge.road.lengthCount(tunnel); k++) {
                 int length = judge.road.lengthAt(tunnel, k);
                 long weight = judge.road.weightAt(tunnel, k);
                 for (int h = 0; h < judge.road.holders; h++) {
-                    judge.held[h] = Math.min(length, settledSeconds[h]);
+                    setAt(judge.held, h, Math.min(length, valueAt(settledSeconds, h)));
                 }
                 for (int held = 0; held <= Math.min(length, breath); held++) {
-                    judge.held[holder] = held;
+                    setAt(judge.held, holder, held);
                     long total = weight * judge.worthAmong(holder, tunnel, length);
                     addToSeconds(0, held, held == length ? breath : held, total);
                 }
@@ -1569,7 +1603,7 @@ public final class BreathRoad {
             Road road = judge.road;
             int breath = judge.now.breathOf(holder);
             long total = 0;
-            for (int k = 0; k < road.lengthCounts[tunnel]; k++) {
+            for (int k = 0; k < road.lengthCount(tunnel); k++) {
                 int length = road.lengthAt(tunnel, k);
                 long unseen = (100L - road.seen) * judge.worthAlone(tunnel, length, length, breath);
                 total += road.weightAt(tunnel, k) * (unseen - (long) road.seen * road.fine);
@@ -1592,7 +1626,7 @@ public final class BreathRoad {
 
         int paceWeights(int tunnel, int holders, int pace) {
             int weights = 0;
-            for (int k = 0; pace > 0 && k < judge.road.lengthCounts[tunnel]; k++) {
+            for (int k = 0; pace > 0 && k < judge.road.lengthCount(tunnel); k++) {
                 int length = Math.max(1, judge.road.lengthAt(tunnel, k) / pace);
                 if (judge.madeBits(tunnel, length) == holders) {
                     weights += judge.road.weightAt(tunnel, k);
@@ -1618,11 +1652,11 @@ public final class BreathRoad {
 
         long totalAmong(int holder, int tunnel, int laughing) {
             long total = 0;
-            for (int k = 0; k < judge.road.lengthCounts[tunnel]; k++) {
+            for (int k = 0; k < judge.road.lengthCount(tunnel); k++) {
                 int length = judge.road.lengthAt(tunnel, k);
                 judge.allHold(tunnel, length);
                 if (judge.road.hasHolder(laughing)) {
-                    judge.held[laughing] = 0;
+                    setAt(judge.held, laughing, 0);
                 }
                 total += (long) judge.road.weightAt(tunnel, k) * judge.worthAmong(holder, tunnel, length);
             }
@@ -1658,7 +1692,7 @@ public final class BreathRoad {
 
         boolean fitLength(Judge judge, int length) {
             for (int i = 0; i < count; i++) {
-                if (judge.secondsHeld(holders[i], tunnel, length) != seconds[i]) {
+                if (judge.secondsHeld(valueAt(holders, i), tunnel, length) != valueAt(seconds, i)) {
                     return false;
                 }
             }
