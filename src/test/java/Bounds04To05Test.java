@@ -189,6 +189,38 @@ public final class Bounds04To05Test {
         }
     }
 
+    /** Those of the old ROADS who are none of the new one hold nothing, make nothing and are beaten by nobody. */
+    static void promise04FewerHoldersThanBefore() {
+        Called x = new Called();
+        for (int i = 0; i < 3; i++) {
+            StringBuilder six = new StringBuilder(T);
+            for (char c = 'a'; c < 'g'; c++) {
+                six.append("holder h").append(c).append(" breath ").append(1 + 9 * (c - 'a')).append(" laughs 50;");
+            }
+            due(x.read(six + "worth beaten;"), 8);
+            x.drive(30);
+        }
+        for (int n = 1; n <= 5; n++) {
+            StringBuilder fewer = new StringBuilder(T);
+            for (int h = 0; h < n; h++) {
+                fewer.append("holder g").append((char) ('a' + h)).append(" breath 5 laughs 0;");
+            }
+            due(x.read(fewer + "worth held*10+last*100+beaten;"), n + 2);
+            due(x.worth(n - 1, 0, 5), 150);
+            due(x.rest(0, NONE), 1);
+            due(x.rest(0, n - 1), 5);
+            due(x.pace(0, (1 << n) - 1, 0), 1);
+            due(x.pace(0, (1 << n) - 1, 1), 1000);
+            due(x.pace(0, (2 << n) - 1, 0), NONE);
+            due(x.whom(0, 0, 0), n > 1 ? 1 : NONE);
+            due(x.drive(1), 5 * n);
+            due(x.score(n - 1), 150);
+            due(x.has(5), n);
+            due(x.pause(), 0);
+            due(x.image(), 2 + 6 * n);
+        }
+    }
+
     static void promise04LongTextsAgainAndAgain() {
         Called x = new Called();
         for (int i = 0; i < 4; i++) {

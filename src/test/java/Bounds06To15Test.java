@@ -1,3 +1,5 @@
+import java.util.List;
+
 /** Boundary cases of what is asked of TUNNELS and HOLDERS, and of who holds. */
 public final class Bounds06To15Test {
     private static final int NONE = Bounds.NONE;
@@ -131,6 +133,42 @@ public final class Bounds06To15Test {
         Bounds.same(Bounds.all(x), Bounds.all(x));
     }
 
+    /** Whatever is asked, be it there or not: the tape, the seed and all else stay. */
+    static void promise06NoCallThatAsksChangesAnything() {
+        Called x = Bounds.used();
+        x.put("seen 77;");
+        List<String> before = Bounds.all(x);
+        for (int i = -1; i <= 2; i++) {
+            x.fault(i);
+            x.letter(i, 0, i);
+            x.tunnel(i, 10);
+            x.holder(i, 11);
+            x.score(i);
+            x.likely(i, 4);
+            x.holds(i, 0, 4);
+            x.made(0, i);
+            x.worth(i, 1, 6);
+            x.tired(1, i, 6, 5);
+            x.alone(1, 1, i);
+            x.on(1, 3, i);
+            x.rest(i, NONE);
+            x.rest(1, i);
+            x.hidden(1, 0, i);
+            x.pace(1, 3, i);
+            x.whom(1, 0, i);
+            x.fit(i);
+            x.kept(i, 3);
+            x.octet(i);
+            x.status(i);
+        }
+        Bounds.same(before, Bounds.all(x));
+        for (int kind = 0; kind < 5; kind++) {
+            due(x.status(kind), kind == 1 ? 1 : 0);
+        }
+        due(x.road(), 1);
+        due(x.has(2), 77);
+    }
+
     // ---- promise 7
 
     static void promise07TheFirstAndTheLastLetter() {
@@ -160,6 +198,19 @@ public final class Bounds06To15Test {
                 due(x.letter(0, 0, k), k < n ? 26 : 0);
             }
             due(x.letter(0, 0, 6), NONE);
+        }
+    }
+
+    static void promise07OfTheNamesThatAreNow() {
+        Called x = Called.of("tunnel abcdef gap 1 at 5 weighs 1;holder zzzzzz breath 5 laughs 0;");
+        due(x.read("tunnel zyxwvu gap 100;"), NONE);
+        due(x.letter(0, 0, 0), 1);
+        for (int i = 0; i < 2; i++) {
+            due(x.read("tunnel z gap 1 at 5 weighs 1;holder b breath 5 laughs 0;"), 2);
+            due(x.letter(0, 0, 0), 26);
+            due(x.letter(0, 0, 1), 0);
+            due(x.letter(1, 0, 0), 2);
+            due(x.letter(1, 0, 5), 0);
         }
     }
 
@@ -247,6 +298,37 @@ public final class Bounds06To15Test {
         }
     }
 
+    /** Nor is what stands there of what is drawn, likely or best. */
+    static void promise08WhatStandsBesideARowIsNotOfIt() {
+        String four = " gap 9 at 1 weighs 9 at 2 weighs 9 at 3 weighs 9 at 60 weighs 9;";
+        Called x = Called.of("tunnel ta" + four + "tunnel tb gap 1 at 5 weighs 1 at 60 weighs 1;tunnel tc" + four
+            + "holder ha breath 60 laughs 0;worth if(gap=1,held,0-held);");
+        due(x.tunnel(1, 1), 2);
+        due(x.tunnel(1, 2), 2);
+        due(x.likely(1, 59), 500);
+        due(x.likely(1, 4), 1000);
+        due(x.rest(1, NONE), 1);
+        due(x.rest(1, 0), 60);
+        due(x.alone(0, 1, 1), 32500);
+        due(x.whom(0, 1, 1), 32500);
+        due(x.hidden(0, 1, 1), 32500);
+        due(x.goOnWith(Called.closed(1, 60, 60, 1, 134, 160, 0, 0, 0)), true);
+        int[] times = new int[61];
+        for (int i = 0; i < 40; i++) {
+            x.drive(1);
+            times[x.kept(x.has(5) - 1, 1)]++;
+            x.drive(2);
+        }
+        due(times[5] > 5, true);
+        due(times[60] > 5, true);
+        due(times[5] + times[60], 40);
+        x = Called.of("tunnel ta" + four + "tunnel tb gap 1 at 5 weighs 1 at 60 weighs 1;holder ha breath 60 laughs 0;"
+            + "worth if(long=5,held*3,0-held);");
+        due(x.rest(1, 0), 5);
+        due(x.alone(0, 1, 0), 5);
+        due(x.alone(0, 1, 1), 5000);
+    }
+
     // ---- promise 9
 
     static void promise09WhatHeBelievesOfEachTunnel() {
@@ -276,6 +358,17 @@ public final class Bounds06To15Test {
                 due(x.holder(n - 1, 0), 19 + n);
             }
             Bounds.dueToEach(NONE, h -> x.holder(h, 0), -1, n, LEAST, MOST);
+        }
+    }
+
+    static void promise09LaughsOfEach() {
+        StringBuilder text = new StringBuilder();
+        for (int h = 0; h < 6; h++) {
+            text.append("holder h").append((char) ('a' + h)).append(" breath 5 laughs ").append(50 - 7 * h).append(';');
+        }
+        Called x = Called.of(text.toString());
+        for (int h = 0; h < 6; h++) {
+            due(x.holder(h, 2), 50 - 7 * h);
         }
     }
 
@@ -485,6 +578,20 @@ public final class Bounds06To15Test {
         due(x.made(1, 0), 666);
         due(x.made(2, 0), 1000);
         due(x.made(3, 0), 0);
+    }
+
+    static void promise13AsAllIsNow() {
+        Called x = Called.of("tunnel t gap 1 at 3 weighs 1 at 2 weighs 3;holder h breath 3 laughs 50;tires breath-1;");
+        due(x.made(0, 0), 1000);
+        x.drive(1);
+        due(x.made(0, 0), 750);
+        x.drive(1);
+        due(x.made(0, 0), 0);
+        x.pause();
+        due(x.made(0, 0), 1000);
+        x.undo();
+        x.undo();
+        due(x.made(0, 0), 750);
     }
 
     static void promise13NoneSuch() {

@@ -83,6 +83,36 @@ public final class Bounds16To23Test {
         alone(Called.of(T + H + "worth held*500;"), 0, 2, 999000);
     }
 
+    /** Whoever laughs, and however often: what is asked is told as if nobody did, and makes no DRAWS. */
+    static void promise16WithoutLaughs() {
+        String[] texts = new String[2];
+        for (int i = 0; i < 2; i++) {
+            texts[i] = "tunnel ta gap 1 at 5 weighs 1 at 9 weighs 2;tunnel tb gap 7 at 12 weighs 1;"
+                + "holder ha breath 6 laughs #;holder hb breath 9 laughs #;holder hc breath 9 laughs #;"
+                + "worth held*3+made*20+last*5+beaten-long;tires breath-held/2;seen 20;fine 9;";
+            texts[i] = texts[i].replace("#", i == 0 ? "0" : "50");
+        }
+        Called x = Called.of(texts[0]);
+        Called y = Called.of(texts[1]);
+        for (int h = 0; h < 3; h++) {
+            for (int t = 0; t < 2; t++) {
+                due(y.holds(h, t, 9), x.holds(h, t, 9));
+                due(y.made(h, t), x.made(h, t));
+                due(y.worth(h, t, 9), x.worth(h, t, 9));
+                due(y.tired(h, t, 9, 6), x.tired(h, t, 9, 6));
+                due(y.rest(t, h), x.rest(t, h));
+                for (int what = 0; what < 2; what++) {
+                    due(y.alone(h, t, what), x.alone(h, t, what));
+                    due(y.on(h, 2 + t, what), x.on(h, 2 + t, what));
+                    due(y.hidden(h, t, what), x.hidden(h, t, what));
+                    due(y.pace(t, 2 * h + 1, what), x.pace(t, 2 * h + 1, what));
+                    due(y.whom(h, t, what), x.whom(h, t, what));
+                }
+            }
+        }
+        due(y.has(7), 1);
+    }
+
     static void promise16IfNobodyElseWereThere() {
         Called x = Called.of(T + "holder a breath 3 laughs 0;holder b breath 9 laughs 0;holder c breath 1 laughs 0;"
             + "worth last*100+beaten*10+held;");
@@ -253,6 +283,32 @@ public final class Bounds16To23Test {
         on(x, 4, 4, 6000);
     }
 
+    /** What one TUNNEL has counts for nothing in another: lengths, weights, what is best behind the same breath. */
+    static void promise17TunnelsUnlikeEachOther() {
+        String text = "tunnel ta gap 1 at 4 weighs 1;tunnel tb gap 2 at 5 weighs 1 at 6 weighs 3;"
+            + "tunnel tc gap 3 at 7 weighs 2 at 8 weighs 2 at 9 weighs 4;holder h breath 20 laughs 0;worth long*gap;";
+        // 4; 2 * 5.75; 3 * 8.25.
+        int[] means = {4000, 11500, 24750};
+        for (int next = 0; next < 3; next++) {
+            Called x = Called.of(text);
+            due(x.goOnWith(Called.closed(next, 20, 60, 1, 134, 160, 0, 0, 0)), true);
+            int all = 0;
+            for (int n = 1; n <= 4; n++) {
+                all += means[(next + n - 1) % 3];
+                on(x, n, 0, all);
+            }
+        }
+        // Always with a breath of 4: held as long as he can in one, not at all in the other.
+        Called x = Called.of("tunnel ta gap 1 at 9 weighs 1;tunnel tb gap 50 at 9 weighs 1;holder h breath 4 laughs 0;"
+            + "worth if(gap=1,held,0-7-held);");
+        on(x, 2, 4, 4000 - 7000);
+        on(x, 3, 4, 2 * 4000 - 7000);
+        on(x, 4, 4, 2 * 4000 - 2 * 7000);
+        x.drive(1);
+        on(x, 2, 0, 4000 - 7000);
+        on(x, 3, 0, 4000 - 2 * 7000);
+    }
+
     static void promise17TiredByItsLengthToo() {
         on(Called.of(T + "holder h breath 3 laughs 0;worth held;tires long;"), 2, 3, 8000);
         on(Called.of(T + "holder h breath 3 laughs 0;worth held;tires gap;"), 2, 3, 4000);
@@ -393,6 +449,27 @@ public final class Bounds16To23Test {
         // Alike on the mean: 9 stays.
         rest(Called.of("tunnel t gap 1 at 3 weighs 1 at 9 weighs 1;" + holder
             + "worth if(long=3,if(held=1,4,0),if(held=9,4,0));"), 1, 9);
+    }
+
+    /** Each length by its own weight, wherever it is told: 1 second of 2 is worth 5, 6 of 6 are worth 4. */
+    static void promise18ByAllWeights() {
+        String worth = "holder h breath 9 laughs 0;worth if(long=2,if(held=1,5,0),if(held=6,4,0));";
+        rest(Called.of("tunnel t gap 1 at 2 weighs 1 at 6 weighs 2;" + worth), 1, 9);
+        rest(Called.of("tunnel t gap 1 at 2 weighs 2 at 6 weighs 1;" + worth), 2, 1);
+        rest(Called.of("tunnel t gap 1 at 6 weighs 1 at 2 weighs 2;" + worth), 2, 1);
+        rest(Called.of("tunnel t gap 1 at 6 weighs 2 at 2 weighs 1;" + worth), 1, 9);
+    }
+
+    /** Whoever would hold longer than the TUNNEL is holds its length as the others do. */
+    static void promise18NobodyHoldsLongerThanItsLength() {
+        // All is alike to a; b is last with 5 of 5, and would not be, were a's 60 or 9 longer.
+        Called x = Called.of(T + "holder a breath 60 laughs 0;holder b breath 9 laughs 0;worth if(breath=60,7,last*10-held);");
+        rest(x, 1, 60, 9);
+        x = Called.of(T + "holder a breath 60 laughs 0;holder b breath 4 laughs 0;worth if(breath=60,7,last*10-held);");
+        rest(x, 2, 60, 0);
+        // 1: a's 60 stay, b takes 0. 2: a takes 1, b 2. 3: a takes 3, b 4. 4: a takes 5, b 0 ..
+        x = Called.of(T + "holder a breath 60 laughs 0;holder b breath 4 laughs 0;worth beaten*100+last*10-held;");
+        rest(x, 13, 3, 4);
     }
 
     static void promise18SixHolders() {
@@ -641,6 +718,23 @@ public final class Bounds16To23Test {
         due(x.pace(1, 3, 1), 0);
     }
 
+    static void promise20AsAllIsNow() {
+        Called x = Called.of("tunnel t gap 1 at 12 weighs 1;holder a breath 12 laughs 0;holder b breath 6 laughs 0;tires breath/2;");
+        due(x.pace(0, 3, 0), 2);
+        x.drive(1);
+        due(x.pace(0, 3, 0), 4);
+        due(x.pace(0, 1, 0), 2);
+        x.drive(1);
+        due(x.pace(0, 3, 1), 0);
+        due(x.pace(0, 1, 0), 4);
+        x.pause();
+        due(x.pace(0, 1, 0), 1);
+        x.believe(0, 0, 13);
+        due(x.pace(0, 2, 0), 2);
+        x.give(1, 3);
+        due(x.pace(0, 2, 0), 4);
+    }
+
     static void promise20NoneSuchOrOthers() {
         Called x = Called.of(TWO);
         due(x.pace(1, 3, 1), 1000);
@@ -731,6 +825,23 @@ public final class Bounds16To23Test {
         Called x = Called.of(FOUR);
         whom(x, 0, NONE, 3000);
         due(x.whom(1, 1, 1), -18000);
+    }
+
+    static void promise21AsAllIsNow() {
+        Called x = Called.of(T + "holder a breath 4 laughs 0;holder b breath 5 laughs 0;holder c breath 3 laughs 0;"
+            + "worth last*10+beaten;tires if(breath=5,1,breath);");
+        whom(x, 0, 1, 12000);
+        x.drive(1);
+        // b has a breath of 1 left, so that nobody is longer than a; whoever laughs is beaten none the less.
+        whom(x, 0, NONE, 12000);
+        whom(x, 2, 0, 12000);
+        x.pause();
+        whom(x, 0, 1, 12000);
+        x.give(1, 2);
+        whom(x, 0, NONE, 12000);
+        x.undo();
+        x.believe(1, 0, 6);
+        whom(x, 0, NONE, 12000);
     }
 
     static void promise21NoneSuchOrOthers() {
