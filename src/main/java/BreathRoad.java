@@ -679,11 +679,11 @@ public final class BreathRoad {
 
         /** 0 for a sum that is not told. */
         int valueOf(int which, int[] facts) {
-            int behind = valueAt(ends, which);
+            int behind = Math.min(valueAt(ends, which), codes.length);
             top = 0;
-            for (int at = valueAt(begins, which); at < behind; at++) {
-                int op = valueAt(codes, at) % OPS;
-                int number = valueAt(codes, at) / OPS;
+            for (int at = Math.max(0, valueAt(begins, which)); at < behind; at++) {
+                int op = codes[at] % OPS;
+                int number = codes[at] / OPS;
                 if (op == NUMBER) {
                     push(number);
                 } else if (op == FACT) {
@@ -734,7 +734,10 @@ public final class BreathRoad {
         }
 
         private static int bounded(long value) {
-            return (int) Math.max(-MOST_RESULT, Math.min(MOST_RESULT, value));
+            if (value > MOST_RESULT) {
+                return MOST_RESULT;
+            }
+            return value < -MOST_RESULT ? -MOST_RESULT : (int) value;
         }
     }
 
@@ -1431,10 +1434,11 @@ public final class BreathRoad {
             int own = valueAt(held, holder);
             tellAlone(tunnel, length, own, now.breathOf(holder));
             for (int h = 0; h < road.holders; h++) {
-                if (valueAt(held, h) > own) {
+                int other = valueAt(held, h);
+                if (other > own) {
                     facts[LAST] = 0;
                 }
-                if (valueAt(held, h) < own) {
+                if (other < own) {
                     facts[BEATEN]++;
                 }
             }
@@ -1539,8 +1543,11 @@ public final class BreathRoad {
 
         private int bestSecond(int row, int breath) {
             int best = 0;
+            long most = valueAt(totals, row);
             for (int second = 1; second <= breath; second++) {
-                if (valueAt(totals, row + second) > valueAt(totals, row + best)) {
+                long total = valueAt(totals, row + second);
+                if (total > most) {
+                    most = total;
                     best = second;
                 }
             }

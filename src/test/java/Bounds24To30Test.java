@@ -281,6 +281,20 @@ public final class Bounds24To30Test {
         due(x.holder(0, 0), 5);
     }
 
+    /** Without a SUM of tires as much as ahead of it, be that other than at first. */
+    static void promise24AsMuchBreathAsAheadWithoutASum() {
+        for (int breath : new int[] {0, 3, 5, 60}) {
+            Called x = Called.of("tunnel t gap 1 at 60 weighs 1;" + H);
+            due(x.goOnWith(Called.closed(0, breath, 60, 1, 134, 160, 0)), true);
+            due(x.drive(2), 2 * breath);
+            due(x.holder(0, 0), breath);
+            due(x.holder(0, 1), 5);
+            due(x.on(0, 4, 1), 0);
+            due(x.tired(0, 0, 60, 5), breath);
+            due(x.pause(), 5 - breath);
+        }
+    }
+
     static void promise24ScoresAtTheirBounds() {
         Called x = Called.of(T + H + "worth 9999;");
         for (int i = 1; i <= 3; i++) {
