@@ -43,7 +43,7 @@ public final class ReadmeTest {
         test.run();
         test.asksEachCall();
         CHECK.due("answers told in README.md, more than 60", test.answers > 60, true);
-        CHECK.due("faults told in README.md, twelve", test.faults, 12);
+        CHECK.due("faults told in README.md, thirteen", test.faults, 13);
         CHECK.due("sums told in README.md, thirteen", test.sums, 13);
         CHECK.finish();
     }
