@@ -309,6 +309,15 @@ public final class Bounds16To23Test {
         on(x, 3, 0, 4000 - 2 * 7000);
     }
 
+    /** What he gets by all of 60 seconds in the first one stays, whatever is looked at behind it. */
+    static void promise17SixtySecondsInTheFirst() {
+        Called x = Called.of("tunnel t gap 1 at 60 weighs 1 at 59 weighs 1;holder h breath 60 laughs 0;worth made*10;"
+            + "tires if(long=59,7,5);");
+        for (int n = 1; n <= 4; n++) {
+            on(x, n, 60, 10000);
+        }
+    }
+
     static void promise17TiredByItsLengthToo() {
         on(Called.of(T + "holder h breath 3 laughs 0;worth held;tires long;"), 2, 3, 8000);
         on(Called.of(T + "holder h breath 3 laughs 0;worth held;tires gap;"), 2, 3, 4000);
@@ -486,6 +495,14 @@ public final class Bounds16To23Test {
     static void promise18SixtySecondsOfEach() {
         rest(two(60, "if(held=59,6,if(held=60,5,0))"), 2, 59, 59);
         rest(two(60, "if(held=59,5,if(held=60,6,0))"), 1, 60, 60);
+    }
+
+    static void promise18WhateverIsKept() {
+        Called x = Called.of("tunnel t gap 1 at 60 weighs 1;" + H + "holder i breath 60 laughs 0;worth held;");
+        for (int i = 0; i < 4; i++) {
+            rest(x, 1, 5, 60);
+            due(x.drive(13), 13 * 65);
+        }
     }
 
     static void promise18AskedAgainBehindEachChange() {
